@@ -37,7 +37,7 @@ public final class FriarLists {
     private static final int LINE_SORT = 0, LINE_N = 1, LINE_FROM = 2, LINE_TO = 3;
     private static final int RANK_LINE = 0, BAR_LINE = 1, LEFT_LINE = 2, PROOF_LINE = 3;
     private static final int NO_RANK = 9;
-    private static final int FACTS = 6, STEP_SICK = 6, STEP_TURNED = 7, STEP_NOT = 8, STEP_AND = 9, STEP_OR = 10;
+    private static final int STEP_SICK = 6, STEP_TURNED = 7, STEP_NOT = 8, STEP_AND = 9, STEP_OR = 10;
     private static final int LESS = 0, SAME = 1, MORE = 2;
 
     private static final int ROW_CAPTIVE = 0, ROW_ASK = 1, OFFER_RANK = 2, MOST_OFFERS = 12;
@@ -45,9 +45,9 @@ public final class FriarLists {
     private static final int SHELF_WHAT = 0, SHELF_N = 1, SHELF_SORT = 2;
     private static final int HOLDS_ALMS = 0, HOLDS_LEGACY = 1, HOLDS_SHIP = 2, HOLDS_CAPTIVE = 3, HOLDS_ROW = 4;
     private static final int HOLDS_NOTHING = 5;
-    private static final int PAPER_KIND = 0, ALMS_KIND = 1, LEFT_KIND = 2, PASS_KIND = 3, PRICE_KIND = 4, BOUGHT_KIND = 5;
-    private static final int OWED_KIND = 6;
-    private static final int[] KIND_ABOVE = {-1, PAPER_KIND, ALMS_KIND, PAPER_KIND, PAPER_KIND, PRICE_KIND, BOUGHT_KIND};
+    private static final int PAPER_KIND = 0, ALMS_KIND = 1, LEFT_KIND = 2, PASS_KIND = 3, PRICE_KIND = 4;
+    private static final int BOUGHT_KIND = 5, OWED_KIND = 6;
+    private static final int[] KIND_ABOVE = {-1, 0, 1, 0, 0, 4, 5};
     private static final int COUNTS = 0, BINDS = 1, GOES = 2, TELLS = 3, ACTS = 4;
     /** Of each kind, and each act, the body: its own or the nearest above it. */
     private static final int[] BODIES = {
@@ -989,7 +989,7 @@ public final class FriarLists {
                 lines.set(line, LINE_FROM, firstStep + text.lines.get(i, LINE_FROM));
                 lines.set(line, LINE_TO, firstStep + text.lines.get(i, LINE_TO));
             }
-            for (int i = 0; i < text.stepCount; i++) steps.set(firstStep + i, 0, text.steps[i]);
+            for (int i = 0; i < text.steps.count; i++) steps.set(firstStep + i, 0, text.steps.get(i, 0));
             return v;
         }
 
@@ -1277,8 +1277,7 @@ public final class FriarLists {
         private final int[] tape = new int[MOST_TAPE];
         int tapeLength = 0;
         final Table lines = new Table(MOST_LINES, 4);
-        final int[] steps = new int[MOST_STEPS];
-        int stepCount = 0;
+        final Table steps = new Table(MOST_STEPS, 1);
         /** Where the word, number or other byte begins that is looked at: behind what is no text, the fault. */
         int start = 0;
         private int end = 0;
@@ -1291,7 +1290,7 @@ public final class FriarLists {
 
         boolean readsText() {
             lines.clear();
-            stepCount = 0;
+            steps.clear();
             end = 0;
             lookOn();
             for (int i = 0; i < MOST_LINES && start < tapeLength; i++) {
@@ -1351,10 +1350,10 @@ public final class FriarLists {
             int line = lines.add();
             lines.set(line, LINE_SORT, sort);
             lines.set(line, LINE_N, n);
-            lines.set(line, LINE_FROM, stepCount);
+            lines.set(line, LINE_FROM, steps.count);
             boolean hasCondition = sort == LEFT_LINE || (sort != PROOF_LINE && passes("if"));
             if (hasCondition && !readsCondition(0)) return false;
-            lines.set(line, LINE_TO, stepCount);
+            lines.set(line, LINE_TO, steps.count);
             return passes(";");
         }
 
@@ -1404,9 +1403,9 @@ public final class FriarLists {
 
         /** There is room for all steps of a tape: with what must part it from the next each takes 4 bytes or more. */
         private void addStep(int step) {
-            if (stepCount < 0 || stepCount >= steps.length) return;
-            steps[stepCount] = step;
-            stepCount++;
+            if (steps.isFull()) return;
+            steps.set(steps.count, 0, step);
+            steps.count++;
         }
     }
 
