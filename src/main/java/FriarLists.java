@@ -48,7 +48,7 @@ public final class FriarLists {
     private static final int PAPER_KIND = 0, ALMS_KIND = 1, LEFT_KIND = 2, PASS_KIND = 3, PRICE_KIND = 4;
     private static final int BOUGHT_KIND = 5, OWED_KIND = 6;
     private static final int[] KIND_ABOVE = {-1, 0, 1, 0, 0, 4, 5};
-    private static final int COUNTS = 0, BINDS = 1, GOES = 2, TELLS = 3, ACTS = 4;
+    private static final int COUNTS = 0, BINDS = 1, GOES = 2, TELLS = 3, ACTS = 4, MOST_DEPTH = 40;
     /** Of each kind, and each act, the body: its own or the nearest above it. */
     private static final int[] BODIES = {
         10, 11, 12, 13,
@@ -1200,7 +1200,7 @@ public final class FriarLists {
 
         boolean findRoad(Lists lists, int port, int n) {
             roadLength = 0;
-            walkHome(lists, port, 0, n, 0, 0);
+            walkTo(lists, port, 0, n, 0, 0);
             return roadLength > 0;
         }
 
@@ -1208,20 +1208,20 @@ public final class FriarLists {
             return i >= 0 && i < roadLength && i < roadPorts.length ? roadPorts[i] : NONE;
         }
 
-        /** Ports are tried by their numbers, so the first of several ways that are as good stays. */
-        private void walkHome(Lists lists, int port, int depth, int left, int weeks, int gone) {
-            if (depth >= way.length) return;
+        private void walkTo(Lists lists, int port, int depth, int left, int weeks, int gone) {
+            if (depth < 0 || depth >= way.length) return;
             way[depth] = port;
-            if (port == 0) {
-                takeIfBetter(depth + 1, left, weeks);
-                return;
-            }
-            int goneNow = gone | 1 << port;
+            if (port == 0) takeIfBetter(depth + 1, left, weeks);
+            else walkOn(lists, port, depth + 1, left, weeks, gone | 1 << port);
+        }
+
+        /** Ports are tried by their numbers, so the first of several ways that are as good stays. */
+        private void walkOn(Lists lists, int port, int depth, int left, int weeks, int gone) {
             for (int next = 0; next < PORTS; next++) {
                 int sail = lists.sails.get(port, next);
-                if (sail < 100 || (goneNow >> next & 1) == 1) continue;
+                if (sail < 100 || (gone >> next & 1) == 1) continue;
                 int lost = (left * (sail % 100) + 99) / 100;
-                walkHome(lists, next, depth + 1, left - lost, weeks + sail / 100, goneNow);
+                walkTo(lists, next, depth, left - lost, weeks + sail / 100, gone);
             }
         }
 
@@ -1238,22 +1238,22 @@ public final class FriarLists {
             most = NONE;
             arrived.zero(0);
             arrived.set(0, a, n);
-            carry(lists, 0, 0, port, b, 0);
+            carryTo(lists, 0, 0, port, b, 0);
             return most;
         }
 
-        private void carry(Lists lists, int port, int depth, int to, int b, int gone) {
+        private void carryTo(Lists lists, int port, int depth, int to, int b, int gone) {
             if (depth >= PORTS) return;
             for (int coin = 0; coin < COINS; coin++) changed.set(depth, coin, mostOf(lists, port, depth, coin));
-            if (port == to) {
-                most = Math.max(most, changed.get(depth, b));
-                return;
-            }
-            int goneNow = gone | 1 << port;
+            if (port == to) most = Math.max(most, changed.get(depth, b));
+            else carryOn(lists, port, depth, to, b, gone | 1 << port);
+        }
+
+        private void carryOn(Lists lists, int port, int depth, int to, int b, int gone) {
             for (int next = 0; next < PORTS; next++) {
-                if (lists.sails.get(port, next) < 100 || (goneNow >> next & 1) == 1) continue;
+                if (lists.sails.get(port, next) < 100 || (gone >> next & 1) == 1) continue;
                 for (int coin = 0; coin < COINS; coin++) arrived.set(depth + 1, coin, changed.get(depth, coin));
-                carry(lists, next, depth + 1, to, b, goneNow);
+                carryTo(lists, next, depth + 1, to, b, gone);
             }
         }
 
@@ -1378,16 +1378,16 @@ public final class FriarLists {
         private boolean readsOne(int open) {
             boolean isNot = false;
             for (int i = 0; i < MOST_TAPE && passes("not"); i++) isNot = !isNot;
-            if (isAt("(") && open >= MOST_OPEN) return false;
-            boolean isThere = passes("(") ? readsCondition(open + 1) && passes(")") : readsPlain();
-            if (isThere && isNot) addStep(STEP_NOT);
-            return isThere;
-        }
-
-        private boolean readsPlain() {
-            int step = passes("sick") ? STEP_SICK : passes("turned") ? STEP_TURNED : readsFact();
-            if (step < 0) return false;
-            addStep(step);
+            if (isAt("(")) {
+                if (open >= MOST_OPEN) return false;
+                lookOn();
+                if (!readsCondition(open + 1) || !passes(")")) return false;
+            } else {
+                int step = passes("sick") ? STEP_SICK : passes("turned") ? STEP_TURNED : readsFact();
+                if (step < 0) return false;
+                addStep(step);
+            }
+            if (isNot) addStep(STEP_NOT);
             return true;
         }
 
@@ -1441,23 +1441,27 @@ public final class FriarLists {
         /** Runs the body that an act has in a kind. No paper of the document goes as deep as the guard. */
         private int runs(int from, int act, int x, int depth) {
             int place = from * ACTS + act;
-            if (depth > 40 || place < 0 || place >= BODIES.length) return 0;
-            int body = BODIES[place], next = depth + 1;
+            if (depth > MOST_DEPTH || place < 0 || place >= BODIES.length) return 0;
+            int body = BODIES[place];
             if (!trace.isFull()) trace.set(trace.add(), 0, body);
+            return answers(body, x, depth + 1);
+        }
+
+        private int answers(int body, int x, int depth) {
             switch (body) {
                 case 10: return x + number;
-                case 11: return runs(kind, COUNTS, x, next) * 2;
+                case 11: return runs(kind, COUNTS, x, depth) * 2;
                 case 12: return parts(x, amount - number);
-                case 13: return runs(kind, BINDS, x, next) - amount;
-                case 20: return runs(PAPER_KIND, COUNTS, x, next) + amount;
-                case 30: return runs(ALMS_KIND, BINDS, x, next) ^ runs(kind, COUNTS, 1, next);
-                case 40: return runs(PAPER_KIND, GOES, x + 3, next);
-                case 41: return runs(PAPER_KIND, TELLS, x, next) * 3;
-                case 50: return runs(PAPER_KIND, BINDS, x, next) - 7;
-                case 60: return runs(PRICE_KIND, COUNTS, x, next) * 5;
-                case 61: return 0 - runs(PRICE_KIND, GOES, x, next);
-                case 70: return runs(BOUGHT_KIND, BINDS, x + 1, next) ^ 9;
-                case 71: return runs(BOUGHT_KIND, TELLS, x, next) + runs(kind, GOES, amount, next);
+                case 13: return runs(kind, BINDS, x, depth) - amount;
+                case 20: return runs(PAPER_KIND, COUNTS, x, depth) + amount;
+                case 30: return runs(ALMS_KIND, BINDS, x, depth) ^ runs(kind, COUNTS, 1, depth);
+                case 40: return runs(PAPER_KIND, GOES, x + 3, depth);
+                case 41: return runs(PAPER_KIND, TELLS, x, depth) * 3;
+                case 50: return runs(PAPER_KIND, BINDS, x, depth) - 7;
+                case 60: return runs(PRICE_KIND, COUNTS, x, depth) * 5;
+                case 61: return 0 - runs(PRICE_KIND, GOES, x, depth);
+                case 70: return runs(BOUGHT_KIND, BINDS, x + 1, depth) ^ 9;
+                case 71: return runs(BOUGHT_KIND, TELLS, x, depth) + runs(kind, GOES, amount, depth);
                 default: return 0;
             }
         }
