@@ -77,6 +77,9 @@ public final class PromisesTest {
         for (int letter = 1; letter <= 26; letter++) due("sound of " + letter, x.sound(letter, 0), classes.charAt(letter - 1) - '0');
         due("row(0, 0)", x.row(0, 0), -9);
         due("judge(1, 0)", x.judge(1, 0), 0);
+        x.alms(0, 5);
+        for (int shelf = 0; shelf < 4; shelf++) due("taken from a new shelf", x.taken(shelf, 0), -11);
+        for (int sheet = 0; sheet < 4; sheet++) due("put into a new sheet", x.put(sheet, 0, 0), -11);
     }
 
     private static void weeksAndCaptives() {
@@ -117,6 +120,14 @@ public final class PromisesTest {
         due("of(-1, 0)", z.of(-1, 0), -1);
         z.weeks(1);
         due("of(0, 9) 104 weeks on", z.of(0, 9), 40);
+        for (int p = 0; p < 6; p++) {
+            z.captive(1, 100 * p, 1, 105, 1);
+            due("of parish " + p, z.of(2 * p + 1, 1), p);
+            z.captive(1, 100 * p + 34, 1, 105, 1);
+            due("of parish " + p, z.of(2 * p + 2, 1), p);
+            due("of trade 3", z.of(2 * p + 2, 2), 3);
+            due("of master 4", z.of(2 * p + 2, 3), 4);
+        }
 
         sickness();
         promise = 7;
@@ -334,6 +345,13 @@ public final class PromisesTest {
         y.openBox(3, 7, 0);
         due("shortSince(3) is since the first", y.shortSince(3), 5);
 
+        FriarLists w = new FriarLists();
+        w.weeks(5);
+        w.alms(4, 2);
+        w.openBox(4, 3, 1);
+        due("shortSince(4) by the first opening", w.shortSince(4), 0);
+        due("many(14) of the first opening", w.many(14), 1);
+
         promise = 21;
         FriarLists z = new FriarLists();
         takes("legacy", 1, 9999, v -> z.legacy(v));
@@ -465,6 +483,33 @@ public final class PromisesTest {
         takes("captive it may", 0, 1, v -> y.may(0, v, 0));
         takes("week it may", 0, 1999, v -> y.may(0, 0, v));
 
+        String nine = "rank 1 if sick;".repeat(9);
+        FriarLists z = new FriarLists();
+        one(z, 0, 10);
+        z.legacy(5);
+        read(z, nine);
+        z.weeks(1);
+        read(z, "rank 2;bar if not sick;left 0 buys sick;");
+        for (int first = 0; first < 2; first++) {
+            due("rank by nine lines", z.rank(0, first), first == 0 ? 9 : 2);
+            due("barred by nine lines", z.barred(0, first), first);
+            due("may by nine lines", z.may(0, 0, first), 1 - first);
+        }
+        FriarLists w = new FriarLists();
+        one(w, 0, 10);
+        w.legacy(5);
+        read(w, nine);
+        w.weeks(1);
+        read(w, "bar if not sick;");
+        due("barred by nine lines, not by the line behind", w.barred(0, 0), 0);
+        FriarLists u = new FriarLists();
+        one(u, 0, 10);
+        u.legacy(5);
+        read(u, nine);
+        u.weeks(1);
+        read(u, "left 0 buys sick;");
+        due("may by nine lines, not by the line behind", u.may(0, 0, 0), 1);
+
         promise = 29;
         due("proof(0, -1)", y.proof(0, -1), 0);
         due("proof(0, 3)", y.proof(0, 3), 1);
@@ -490,7 +535,7 @@ public final class PromisesTest {
             {"bar if 5<age;", 7}, {"bar if not;", 10}, {"bar if not not sick;", -1}, {"bar if (sick;", 12}, {"bar if sick);", 11},
             {"bar if ();", 8}, {"bar if ((((sick))));", -1}, {"bar if (((((sick)))));", 11}, {"bar if ((((sick)))) or ((((sick))));", -1},
             {"bar if sick or;", 14}, {"bar if or sick;", 7}, {"bar if sick and or sick;", 16}, {"bar if sick;;", 12}, {";", 0},
-            {"rank1if age<5or(sick)and not turned;", -1}, {"ranks 1;", 0}, {"ran", 0}, {"Rank 1;", 0}, {"rank 1; x", 8}, {"rank\t1;", 4},
+            {"rank1if age<5or(sick)and not turned;", -1}, {"ranks 1;", 0}, {"rankz 1;", 0}, {"ranka 1;", 0}, {"zrank 1;", 0}, {"ran", 0}, {"Rank 1;", 0}, {"rank 1; x", 8}, {"rank\t1;", 4},
             {"rank 1 if", 9}, {"rank 1 if age", 13}, {"rank 1 if ages<5;", 10}, {"rank 1 bar", 7}, {"proof 1 if sick;", 8},
             {"  rank  1  ;  ", -1}, {"rank 1;rank 1;\u00e9", 14}, {"rank -1;", 5}, {"bar if sickor turned;", 7}, {"bar if age<5or turned;", -1},
             {"bar if not(not(not(not(sick))));", -1}, {"bar if not(not(not(not(not(sick)))));", 26}, {"rank 1 if mastery=1;", 10},
@@ -691,7 +736,16 @@ public final class PromisesTest {
         due("amiss by the rules now", x.legacyOf(0, 2), 44);
         due("the amount stays", x.legacyOf(0, 0), 80);
 
+        FriarLists y = new FriarLists();
+        y.legacy(1);
+        one(y, 0, 1);
+        due("buy for all that it has", y.buy(0, 0), 1);
+        due("legacyOf(0, 1)", y.legacyOf(0, 1), 0);
+        read(y, "left 0 buys sick;");
+        due("amiss for the first captive", y.legacyOf(0, 2), 1);
+
         promise = 39;
+        due("twice of one bought for 1", y.twice(0), 1);
         due("twice(2)", x.twice(2), 0);
         due("of(2, 13)", x.of(2, 13), 0);
         due("twice(1)", x.twice(1), 1);
@@ -769,6 +823,8 @@ public final class PromisesTest {
         x.sick(1, true);
         x.sick(1, false);
         for (int c = 0; c < 3; c++) x.aboard(c, c == 0 ? 0 : 1);
+        x.sick(2, true);
+        x.sick(2, false);
         x.sail(0);
         x.sail(1);
         x.weeks(4);
@@ -992,6 +1048,7 @@ public final class PromisesTest {
         y.alms(0, 1);
         y.shelf(0, 0, 1);
         due("act: parted by 0", y.act(0, 2, 8), -15);
+        due("act behind it", y.act(0, 0, 8), 10);
         one(y, 0, 1);
         one(y, 0, 1);
         y.openBox(0, 7, 50);
@@ -1032,6 +1089,7 @@ public final class PromisesTest {
 
         promise = 55;
         x = bought();
+        x.alms(2, 40);
         x.feed(0, 5);
         x.sheet(0, 2, 3);
         x.legacy(10);
@@ -1057,6 +1115,7 @@ public final class PromisesTest {
         x.ship(1, 1);
         x.voyage(1, 1, 1);
         x.openBox(0, 0, 50);
+        x.openBox(2, 0, 50);
         x.aboard(0, 1);
         x.twice(0);
         x.turned(1, true);
@@ -1067,7 +1126,7 @@ public final class PromisesTest {
 
         promise = 56;
         due("again()", x.again(), 1);
-        int[] many = {0, 6, 0, 0, 1, 1, 0, 0, 2, 0, 1, 6, 2, 9939, 0};
+        int[] many = {0, 6, 0, 1, 1, 1, 0, 0, 2, 0, 1, 6, 2, 9939, 0};
         for (int what = 0; what < many.length; what++) due("many(" + what + ")", x.many(what), many[what]);
         due("item of a sheet", x.item(0, 2, 2), -12);
         due("a legacy that is not there any more", x.taken(0, 2), -11);
@@ -1085,7 +1144,8 @@ public final class PromisesTest {
         due("master", x.master(0, 4), 1);
         due("sound", x.sound(2, 4), 1);
         due("rank", x.rank(0, 0), 9);
-        due("alms of the kept box", x.openBox(0, 7, 0) * 0 + x.lack(1), 10000);
+        due("openBox", x.openBox(2, 7, 0), 1);
+        due("alms of the kept box", x.lack(1), 10040);
         x.weeks(3);
         due("again() once more", x.again(), 1);
         due("sails once more", x.sails(1, 0, 0), 250);
