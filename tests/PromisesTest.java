@@ -409,6 +409,81 @@ public final class PromisesTest {
         for (int v : new int[] {-1, 1}) due("version(" + v + ", 0)", y.version(v, 0), -1);
 
         ruling();
+        ages();
+    }
+
+    /** What a rule asks of an age is the age in the week that is asked for, in each call that asks the rules. */
+    private static void ages() {
+        promise = 26;
+        FriarLists x = new FriarLists();
+        x.weeks(60);
+        x.captive(1, 0, 10, 60, 5);
+        x.captive(1, 0, 90, 0, 5);
+        x.captive(1, 0, 10, 8, 5);
+        x.keep();
+        x.again();
+        read(x, "rank 0 if age<10; rank 1 if age=10; rank 2 if age=11; rank 3 if age=12; rank 4 if age>127; rank 5 if age>90;");
+        int[][] ages = {{0, 60, 1}, {0, 61, 1}, {0, 111, 1}, {0, 112, 2}, {0, 163, 2}, {0, 164, 3}, {0, 215, 3}, {0, 216, 9},
+            {1, 60, 5}, {1, 1975, 5}, {1, 1976, 4}, {1, 1999, 4}, {2, 60, 2}, {2, 111, 2}, {2, 112, 3}};
+        for (int[] age : ages) due("rank(" + age[0] + ", " + age[1] + ") by age", x.rank(age[0], age[1]), age[2]);
+        FriarLists old = new FriarLists();
+        read(old, "rank 0 if age<30; rank 1 if age=30; rank 2 if age=31;");
+        old.weeks(200);
+        old.captive(1, 0, 30, 200, 5);
+        for (int week : new int[] {0, 95, 96, 147, 148, 149, 199, 200, 251}) due("rank(0, " + week + "), none is younger than told", old.rank(0, week), 1);
+        due("rank(0, 252)", old.rank(0, 252), 2);
+        FriarLists each = new FriarLists();
+        for (int n = 0; n < 4; n++) {
+            read(each, "rank " + n + " if age=2" + n + ";");
+            if (n == 0) one(each, 0, 1);
+            each.weeks(52);
+        }
+        for (int n = 0; n < 4; n++) due("rank by age and rules of then", each.rank(0, 52 * n), n);
+        due("rank by age behind the last rules", each.rank(0, 208), 9);
+
+        promise = 27;
+        read(x, "bar if age>10; left 0 buys age<11;");
+        due("barred, not yet so old", x.barred(0, 111), 0);
+        due("barred by age", x.barred(0, 112), 1);
+
+        promise = 28;
+        x.legacy(100);
+        due("may, not yet so old", x.may(0, 0, 111), 1);
+        due("may by age", x.may(0, 0, 112), 0);
+
+        promise = 34;
+        due("mole, barred by age", x.mole(1, 999), 1);
+        promise = 37;
+        due("judge", x.judge(1, 999), 0);
+        promise = 38;
+        due("buy, barred by age", x.buy(2, -1), -4);
+        due("buy, not yet so old", x.buy(0, 0), 5);
+        promise = 22;
+        due("amiss, not yet so old", x.legacyOf(0, 2), 0);
+        x.weeks(51);
+        due("amiss, not yet so old", x.legacyOf(0, 2), 0);
+        x.weeks(1);
+        due("amiss by age now", x.legacyOf(0, 2), 5);
+        promise = 37;
+        due("judge of one bought", x.judge(1, 999), 1);
+
+        promise = 34;
+        FriarLists y = new FriarLists();
+        y.captive(1, 0, 13, 0, 5);
+        y.captive(1, 0, 20, 0, 4);
+        read(y, "rank 0 if age<14; rank 1; left 0 buys age=14; bar if age=15;");
+        y.legacy(9);
+        y.weeks(51);
+        due("mole by rank of age", y.mole(1, 5), 1);
+        due("buy, it may not yet", y.buy(0, 0), -4);
+        y.weeks(1);
+        due("mole by rank of age, later", y.mole(1, 5), 2);
+        promise = 37;
+        y.weeks(51);
+        y.mole(1, 9);
+        due("judge", y.judge(1, 9), 0);
+        y.weeks(1);
+        due("judge, barred by age since", y.judge(1, 9), 1);
     }
 
     private static void ruling() {

@@ -34,11 +34,22 @@ public final class TextsTest {
         return x.read();
     }
 
-    // ---- conditions: each is a text and its truth, for the captive of facts 3, 2, 1, 4, 5, 0 who is sick
+    // ---- conditions: each is a text and its truth, for the captive of the facts OF in a week, who is sick
 
     private record Cond(String text, boolean truth) { }
 
+    private static final int TAKEN = 9;
     private static final int[] OF = {3, 2, 1, 4, 5, 0};
+    private static boolean isSick = true;
+
+    /** A week around the one on which the captive was taken and was sick, or around a year behind it. */
+    private static int someWeek(int age) {
+        int week = TAKEN + 52 * some(0, 4) + some(-2, 2);
+        OF[1] = Math.max(0, week - TAKEN);
+        OF[0] = age + OF[1] / 52;
+        isSick = week >= TAKEN;
+        return week;
+    }
 
     private static Cond one(int depth) {
         if (some(0, 3) == 0) {
@@ -49,8 +60,8 @@ public final class TextsTest {
             Cond part = any(depth + 1);
             return new Cond("(" + part.text + ")", part.truth);
         }
-        if (some(0, 5) == 0) return some(0, 1) == 0 ? new Cond("sick", true) : new Cond("turned", false);
-        int fact = some(0, 5), n = some(0, 5), sign = some(0, 2);
+        if (some(0, 5) == 0) return some(0, 1) == 0 ? new Cond("sick", isSick) : new Cond("turned", false);
+        int fact = some(0, 5), n = Math.max(0, OF[fact] + some(-2, 2)), sign = some(0, 2);
         boolean truth = sign == 0 ? OF[fact] < n : sign == 1 ? OF[fact] == n : OF[fact] > n;
         return new Cond(FACTS[fact] + "<=>".charAt(sign) + n, truth);
     }
@@ -74,18 +85,19 @@ public final class TextsTest {
     }
 
     private static void conditions() {
-        FriarLists x = new FriarLists();
-        x.weeks(2);
-        x.captive(1, 410, 3, 0, 5);
-        x.legacy(1);
-        x.sick(0, true);
+        int age = some(1, 90), week = someWeek(age);
         Cond cond = any(0);
         String bar = "bar if " + cond.text + ";", left = "left 0 buys " + cond.text + ";", rank = "rank 3 if " + cond.text + ";";
         if (bar.length() + left.length() + rank.length() > 250) return;
+        FriarLists x = new FriarLists();
+        x.legacy(1);
         due(bar, read(x, List.of(bar, left, rank)), 0);
-        due(bar, x.barred(0, 2), cond.truth ? 1 : 0);
-        due(left, x.may(0, 0, 2), cond.truth ? 1 : 0);
-        due(rank, x.rank(0, 2), cond.truth ? 3 : 9);
+        x.weeks(TAKEN);
+        x.captive(1, 410, age, TAKEN, 5);
+        x.sick(0, true);
+        due(bar + " in week " + week, x.barred(0, week), cond.truth ? 1 : 0);
+        due(left + " in week " + week, x.may(0, 0, week), cond.truth ? 1 : 0);
+        due(rank + " in week " + week, x.rank(0, week), cond.truth ? 3 : 9);
     }
 
     // ---- faults: tokens are put together, some at random, and a row of states tells the first that is wrong

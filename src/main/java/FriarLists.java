@@ -37,6 +37,8 @@ public final class FriarLists {
     private static final int LINE_SORT = 0, LINE_N = 1, LINE_FROM = 2, LINE_TO = 3;
     private static final int RANK_LINE = 0, BAR_LINE = 1, LEFT_LINE = 2, PROOF_LINE = 3;
     private static final int NO_RANK = 9;
+    private static final int FACT_AGE = 0, FACT_WEEKS = 1, FACT_TRADE = 2;
+    private static final int FACT_PARISH = 3, FACT_PAID = 4, FACT_MASTER = 5;
     private static final int STEP_SICK = 6, STEP_TURNED = 7, STEP_NOT = 8, STEP_AND = 9, STEP_OR = 10;
     private static final int LESS = 0, SAME = 1, MORE = 2;
 
@@ -838,7 +840,7 @@ public final class FriarLists {
         }
 
         int ageNow(int c) {
-            return captives.get(c, AGE) + (now - captives.get(c, TAKEN)) / WEEKS_OF_A_YEAR;
+            return factOf(FACT_AGE, c, now);
         }
 
         boolean isSick(int c) {
@@ -1081,13 +1083,15 @@ public final class FriarLists {
             }
         }
 
+        /** Ahead of the week on which they were taken nobody is younger than told. */
         private int factOf(int fact, int c, int week) {
+            int weeksSince = Math.max(0, week - captives.get(c, TAKEN));
             switch (fact) {
-                case 0: return captives.get(c, AGE);
-                case 1: return Math.max(0, week - captives.get(c, TAKEN));
-                case 2: return captives.get(c, TRADE);
-                case 3: return captives.get(c, PARISH);
-                case 4: return captives.get(c, PAID);
+                case FACT_AGE: return captives.get(c, AGE) + weeksSince / WEEKS_OF_A_YEAR;
+                case FACT_WEEKS: return weeksSince;
+                case FACT_TRADE: return captives.get(c, TRADE);
+                case FACT_PARISH: return captives.get(c, PARISH);
+                case FACT_PAID: return captives.get(c, PAID);
                 default: return captives.get(c, MASTER);
             }
         }
@@ -1392,8 +1396,9 @@ public final class FriarLists {
         }
 
         private int readsFact() {
-            int fact = passes("age") ? 0 : passes("weeks") ? 1 : passes("trade") ? 2
-                    : passes("parish") ? 3 : passes("paid") ? 4 : passes("master") ? 5 : -1;
+            int fact = passes("age") ? FACT_AGE : passes("weeks") ? FACT_WEEKS
+                    : passes("trade") ? FACT_TRADE : passes("parish") ? FACT_PARISH
+                    : passes("paid") ? FACT_PAID : passes("master") ? FACT_MASTER : -1;
             if (fact < 0) return -1;
             int sign = passes("<") ? LESS : passes("=") ? SAME : passes(">") ? MORE : -1;
             if (sign < 0) return -1;
