@@ -405,8 +405,15 @@ public final class PromisesTest {
             due("version's sort of line " + i, y.version(0, 10 + i), sort[i]);
             due("version's N of line " + i, y.version(0, 30 + i), n[i]);
         }
+        due("read", read(y, "proof 1;left 2 buys sick;rank 0;"), 1);
+        int[] nextSort = {3, 2, 0}, nextN = {1, 2, 0};
+        due("version(1, 0)", y.version(1, 0), 3);
+        for (int i = 0; i < 3; i++) {
+            due("the next version's sort of line " + i, y.version(1, 10 + i), nextSort[i]);
+            due("the next version's N of line " + i, y.version(1, 30 + i), nextN[i]);
+        }
         for (int what : new int[] {-1, 2, 9, 15, 29, 35, Integer.MIN_VALUE, Integer.MAX_VALUE}) due("version(0, " + what + ")", y.version(0, what), -1);
-        for (int v : new int[] {-1, 1}) due("version(" + v + ", 0)", y.version(v, 0), -1);
+        for (int v : new int[] {-1, 2}) due("version(" + v + ", 0)", y.version(v, 0), -1);
 
         ruling();
         ages();
@@ -769,9 +776,9 @@ public final class PromisesTest {
         due("waits: patience 0", x.waits(50, 50, 9, 0, 40, 0), 49);
         takes("ask waited", 1, 9999, v -> x.waits(v, 0, 0, 0, 0, 0));
         takes("drop", 0, 999, v -> x.waits(5, v, 0, 0, 0, 0));
-        takes("keep", 0, 999, v -> x.waits(5, 0, v, 0, 0, 0));
+        takes("keep", 0, 999, v -> x.waits(5, 0, v, 0, 9, 0));
         takes("patience", 0, 6, v -> x.waits(5, 0, 0, v, 0, 0));
-        takes("loss", 0, 9999, v -> x.waits(5, 0, 0, 0, v, 0));
+        takes("loss", 0, 9999, v -> x.waits(5, 0, 9, 0, v, 0));
         takes("what of waits", 0, 1, v -> x.waits(5, 0, 0, 0, 0, v));
     }
 
@@ -816,6 +823,10 @@ public final class PromisesTest {
         one(y, 0, 1);
         due("buy for all that it has", y.buy(0, 0), 1);
         due("legacyOf(0, 1)", y.legacyOf(0, 1), 0);
+        y.openBox(0, 7, 5);
+        one(y, 0, 5);
+        due("buy for all that is in the chest", y.buy(1, -1), 5);
+        due("many(13)", y.many(13), 0);
         read(y, "left 0 buys sick;");
         due("amiss for the first captive", y.legacyOf(0, 2), 1);
 
@@ -907,6 +918,33 @@ public final class PromisesTest {
         due("home: healed ahead of the sailing", x.of(1, 6), 4);
         x.weeks(2);
         due("dead off the mole", x.of(0, 6), 7);
+
+        x = bought();
+        for (int c = 0; c < 2; c++) x.aboard(c, 0);
+        x.sail(0);
+        x.weeks(1);
+        x.sick(1, true);
+        x.weeks(1);
+        x.sick(1, false);
+        x.weeks(5);
+        due("off for six weeks, sick at sea", x.of(0, 6), 3);
+        due("off for six weeks, healed", x.of(1, 6), 3);
+        x.weeks(1);
+        due("home behind six weeks", x.of(0, 6), 4);
+        promise = 5;
+        due("sick who is home", x.sick(0, true), -4);
+        due("healed who is home", x.sick(1, false), -4);
+
+        promise = 2;
+        x = bought();
+        for (int c = 0; c < 2; c++) x.aboard(c, 0);
+        x.sail(0);
+        x.weeks(2);
+        x.sick(1, true);
+        x.weeks(1);
+        due("off, sick only off the mole", x.of(0, 6), 3);
+        x.weeks(1);
+        due("home, sick only off the mole", x.of(0, 6), 4);
 
         x = bought();
         for (int c = 0; c < 3; c++) x.aboard(c, 0);
@@ -1036,6 +1074,7 @@ public final class PromisesTest {
         due("comes", x.comes(2, 1), 0);
         int[] of = {9, 5, 3, 4, 0, 12};
         for (int what = 0; what < 6; what++) due("of one who came from a sheet", x.of(0, what), of[what]);
+        due("age of one who came from a sheet", x.of(0, 9), 21);
         for (int i = 1; i < 16; i++) x.comes(2, 1);
         due("comes 17th", x.comes(2, 1), -2);
     }
@@ -1101,6 +1140,10 @@ public final class PromisesTest {
         int owed = 2 * 5 * 12 - 7 ^ 9;
         acts(x, 3, 1, new int[] {55, owed, -1, owed - 10 - 1},
             new int[][] {{60, 10}, {70, 50, 11, 60, 10}, {61, 12}, {71, 13, 70, 50, 11, 60, 10, 61, 12}});
+        FriarLists far = new FriarLists();
+        far.ship(1, 1);
+        far.shelf(0, 2, 0);
+        for (int v : new int[] {-4, -3, 0, 9}) due("a pass goes from 3 more", far.act(0, 2, v), v + 3);
         due("act wraps", x.act(2, 0, Integer.MAX_VALUE), Integer.MIN_VALUE * 5);
         x.shelf(2, 3, 7);
         due("act: the rest is away", x.act(2, 2, -45), -1);
@@ -1228,5 +1271,32 @@ public final class PromisesTest {
         x.keep();
         x.weeks(3);
         due("again() to the latest", x.again() * 0 + x.many(0), 3);
+        keptRules();
+    }
+
+    /** Rules that were read behind keep() leave nothing in those that are read behind again(). */
+    private static void keptRules() {
+        FriarLists x = new FriarLists();
+        one(x, 0, 9);
+        x.legacy(9);
+        x.keep();
+        read(x, "rank 3 if sick; proof 5; bar if not sick; rank 4; left 0 buys sick;");
+        due("barred", x.barred(0, 0), 1);
+        x.again();
+        due("many(6)", x.many(6), 0);
+        due("barred behind again()", x.barred(0, 0), 0);
+        due("read behind again()", read(x, "rank 5;"), 0);
+        due("version(0, 0)", x.version(0, 0), 1);
+        due("version(0, 11)", x.version(0, 11), -1);
+        due("rank behind again()", x.rank(0, 0), 5);
+        due("barred by no line of then", x.barred(0, 0), 0);
+        due("may by no line of then", x.may(0, 0, 0), 1);
+        due("buy without a proof of then", x.buy(0, 0), 9);
+        x.keep();
+        read(x, "rank 6;");
+        x.again();
+        due("rank by the kept rules", x.rank(0, 0), 5);
+        due("read", read(x, "rank 7 if not sick and age=20;"), 1);
+        due("rank by those read since", x.rank(0, 0), 7);
     }
 }
