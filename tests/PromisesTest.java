@@ -1272,6 +1272,33 @@ public final class PromisesTest {
         x.weeks(3);
         due("again() to the latest", x.again() * 0 + x.many(0), 3);
         keptRules();
+        keptShelves();
+    }
+
+    /** What again() has taken back is nothing on a SHELF; a row stays there. */
+    private static void keptShelves() {
+        FriarLists x = new FriarLists();
+        x.keep();
+        x.alms(0, 7);
+        x.legacy(7);
+        x.ship(1, 7);
+        one(x, 0, 7);
+        x.sheet(3, 0, 4);
+        for (int what = 0; what < 4; what++) {
+            due("shelf", x.shelf(what, what, 0), 1);
+            due("taken ahead of again()", x.taken(what, what == 0 ? 1 : what == 1 ? 2 : what == 2 ? 3 : 4), 0);
+            due("act ahead of again()", x.act(what, 0, 1), what < 2 ? 8 : 1);
+        }
+        x.again();
+        for (int what = 0; what < 4; what++) {
+            due("taken behind again()", x.taken(what, 0), -11);
+            due("taken for a row behind again()", x.taken(what, 10), -11);
+            due("act behind again()", x.act(what, 0, 1), 0);
+            due("no trace then", x.many(12), 0);
+        }
+        due("shelf of a row", x.shelf(0, 4, 3), 1);
+        x.again();
+        due("taken of a row behind again()", x.taken(0, 10), 4);
     }
 
     /** Rules that were read behind keep() leave nothing in those that are read behind again(). */
