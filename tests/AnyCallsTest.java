@@ -4,6 +4,8 @@ import java.util.Arrays;
 import java.util.Comparator;
 import java.util.List;
 import java.util.Random;
+import java.util.function.ToIntFunction;
+import java.util.stream.IntStream;
 
 /** Calls of any kind with any numbers: none throws, and a refused one changes nothing that can be asked. */
 public final class AnyCallsTest {
@@ -12,32 +14,67 @@ public final class AnyCallsTest {
     /** Answers of these may be below 0 without a refusal; act() has a trace even where it answers -15. */
     private static final List<String> ANY_ANSWER = List.of("act", "item", "row", "alterRow", "read", "trace");
 
-    public static void main(String[] args) throws Exception {
-        List<Method> calls = new ArrayList<>();
-        for (Method m : FriarLists.class.getDeclaredMethods()) {
-            if (java.lang.reflect.Modifier.isPublic(m.getModifiers())) calls.add(m);
+    private static final List<Method> CALLS = new ArrayList<>();
+    private static final List<ToIntFunction<FriarLists>> LOOKS = looks();
+
+    private record Call(Method method, Object[] told) {
+        int on(FriarLists x) throws ReflectiveOperationException {
+            return (Integer) method.invoke(x, told);
         }
-        calls.sort(Comparator.comparing(Method::getName));
-        int wrong = calls.size() == 55 ? 0 : 1;
-        int refused = 0, made = 0;
+
+        boolean isRefusal(int answer) {
+            return answer < 0 && !ANY_ANSWER.contains(method.getName());
+        }
+    }
+
+    public static void main(String[] args) throws ReflectiveOperationException {
+        for (Method m : FriarLists.class.getDeclaredMethods()) {
+            if (java.lang.reflect.Modifier.isPublic(m.getModifiers())) CALLS.add(m);
+        }
+        CALLS.sort(Comparator.comparing(Method::getName));
+        int wrong = CALLS.size() == 55 ? 0 : 1;
+        int made = 0, refused = 0;
         for (int run = 0; run < 400; run++) {
             FriarLists x = new FriarLists();
             for (int i = 0; i < 512; i++) {
-                Method call = calls.get(dice.nextInt(calls.size()));
-                Object[] told = told(call, run % 4 == 0);
-                boolean looks = run % 10 == 1 && !ANY_ANSWER.contains(call.getName());
-                int[] ahead = looks ? seen(x) : null;
-                int answer = (Integer) call.invoke(x, told);
+                anyCall(run % 4 == 0).on(x);
                 made++;
-                if (!looks || answer >= 0) continue;
-                refused++;
-                if (Arrays.equals(ahead, seen(x))) continue;
-                wrong++;
-                System.out.println(call.getName() + Arrays.toString(told) + " answered " + answer + " and changed something");
             }
         }
-        System.out.println(made + " calls, none of them threw; " + refused + " refused ones were looked at, wrong: " + wrong);
+        for (int run = 0; run < 400; run++) {
+            List<Call> calls = new ArrayList<>(), taken = new ArrayList<>();
+            FriarLists x = new FriarLists();
+            for (int i = 0; i < 200; i++) {
+                Call call = anyCall(run % 10 == 0);
+                calls.add(call);
+                if (!call.isRefusal(call.on(x))) taken.add(call);
+            }
+            refused += calls.size() - taken.size();
+            if (Arrays.equals(seenBehind(calls), seenBehind(taken))) continue;
+            wrong++;
+            System.out.println("refused calls changed something in run " + run);
+        }
+        System.out.println(made + " calls, none of them threw; " + refused + " refused ones were left out, wrong: " + wrong);
         if (wrong != 0) System.exit(1);
+    }
+
+    private static Call anyCall(boolean isWild) {
+        Method method = CALLS.get(dice.nextInt(CALLS.size()));
+        return new Call(method, told(method, isWild));
+    }
+
+    /** What the calls that aren't refused answer, and what can be asked behind them: of no object more than 512 calls. */
+    private static int[] seenBehind(List<Call> calls) throws ReflectiveOperationException {
+        List<Integer> seen = new ArrayList<>();
+        for (int from = 0; from < LOOKS.size(); from += 300) {
+            FriarLists x = new FriarLists();
+            for (Call call : calls) {
+                int answer = call.on(x);
+                if (!call.isRefusal(answer)) seen.add(answer);
+            }
+            for (int i = from; i < Math.min(from + 300, LOOKS.size()); i++) seen.add(LOOKS.get(i).applyAsInt(x));
+        }
+        return seen.stream().mapToInt(Integer::intValue).toArray();
     }
 
     private static Object[] told(Method call, boolean isWild) {
@@ -66,37 +103,41 @@ public final class AnyCallsTest {
     }
 
     /** All that can be asked without a change. */
-    private static int[] seen(FriarLists x) {
-        int[] seen = new int[3000];
-        int n = 0;
-        for (int what = 0; what < 28; what++) seen[n++] = x.many(what);
-        for (int c = 0; c < 16; c++) {
-            for (int what = 0; what < 14; what++) seen[n++] = x.of(c, what);
+    private static List<ToIntFunction<FriarLists>> looks() {
+        List<ToIntFunction<FriarLists>> looks = new ArrayList<>();
+        for (int what : upTo(28)) looks.add(x -> x.many(what));
+        for (int c : upTo(16)) {
+            for (int what : upTo(14)) looks.add(x -> x.of(c, what));
             for (int week : new int[] {0, 100, 1999}) {
-                seen[n++] = x.ask(c, week);
-                seen[n++] = x.rank(c, week);
-                seen[n++] = x.barred(c, week);
+                looks.add(x -> x.ask(c, week));
+                looks.add(x -> x.rank(c, week));
+                looks.add(x -> x.barred(c, week));
             }
         }
-        for (int i = 0; i < 12; i++) {
-            for (int what = 0; what < 2; what++) seen[n++] = x.row(i, what);
-            for (int what = 0; what < 3; what++) seen[n++] = x.legacyOf(i, what);
-            for (int what = 0; what < 40; what++) seen[n++] = x.version(i, what);
-            seen[n++] = x.lack(i);
-            seen[n++] = x.shortSince(i);
-            seen[n++] = x.trace(i);
-            seen[n++] = x.key(i + 1);
-            seen[n++] = x.meant(i + 1, -1);
-            seen[n++] = x.question(i + 1, -1);
-            for (int as = 0; as < 15; as++) seen[n++] = x.taken(i, as);
-            for (int sort = 0; sort < 5; sort++) seen[n++] = x.item(i, sort, i);
+        for (int i : upTo(12)) {
+            for (int what : upTo(2)) looks.add(x -> x.row(i, what));
+            for (int what : upTo(3)) looks.add(x -> x.legacyOf(i, what));
+            for (int what : upTo(40)) looks.add(x -> x.version(i, what));
+            looks.add(x -> x.lack(i));
+            looks.add(x -> x.shortSince(i));
+            looks.add(x -> x.trace(i));
+            looks.add(x -> x.key(i + 1));
+            looks.add(x -> x.meant(i + 1, -1));
+            looks.add(x -> x.question(i + 1, -1));
+            for (int as : upTo(15)) looks.add(x -> x.taken(i, as));
+            for (int sort : upTo(5)) looks.add(x -> x.item(i, sort, i));
         }
         for (int port = 1; port < 5; port++) {
-            for (int what = 0; what < 6; what++) seen[n++] = x.road(port, 9, what);
-            for (int coin = 0; coin < 3; coin++) seen[n++] = x.brought(port, coin, 2, 999);
-            for (int what = -2; what < 4; what++) seen[n++] = x.years(port * 50, what);
-            seen[n++] = x.judge(port, 500);
+            int to = port;
+            for (int what : upTo(6)) looks.add(x -> x.road(to, 9, what));
+            for (int coin : upTo(3)) looks.add(x -> x.brought(to, coin, 2, 999));
+            for (int what : upTo(6)) looks.add(x -> x.years(to * 50, what - 2));
+            looks.add(x -> x.judge(to, 500));
         }
-        return seen;
+        return looks;
+    }
+
+    private static int[] upTo(int n) {
+        return IntStream.range(0, n).toArray();
     }
 }

@@ -48,6 +48,26 @@ public final class EdgesTest {
         sails();
         brought();
         roads();
+        moles();
+        readers();
+        buying();
+        amiss();
+        waits();
+        ships();
+        voyagesHome();
+        quarantines();
+        asAWeekComes();
+        voyages();
+        acts();
+        wraps();
+        partings();
+        traces();
+        sheets();
+        items();
+        comers();
+        shelves();
+        manys();
+        kept();
         System.out.println(wrong == 0 ? sentences + " sentences hold, " + asked + " answers are as due" : wrong + " answers are not as due");
         if (wrong != 0) System.exit(1);
     }
@@ -929,13 +949,19 @@ public final class EdgesTest {
         x.again();
     }
 
-    private static void facts() {
-        says("weeks since they were taken (by that WEEK; not below 0)");
+    /** In week 10 one captive, taken in week 5, of whom each number is as great as may be. */
+    private static FriarLists withGreatest() {
         FriarLists x = new FriarLists();
         x.legacy(1);
         x.weeks(5);
         x.captive(1, 534, 90, 5, 999);
         x.weeks(5);
+        return x;
+    }
+
+    private static void facts() {
+        says("weeks since they were taken (by that WEEK; not below 0)");
+        FriarLists x = withGreatest();
         FriarLists early = new FriarLists();
         early.legacy(1);
         read(early, "rank 0 if weeks=0;rank 1 if weeks<2;rank 2;");
@@ -954,11 +980,12 @@ public final class EdgesTest {
         String[] facts = {"age", "trade", "parish", "paid", "master"};
         int[] of = {90, 3, 5, 999, 4};
         for (int i = 0; i < facts.length; i++) {
+            FriarLists greatest = withGreatest();
             for (int by = -1; by < 2 && of[i] + by < 1000; by++) {
                 int n = of[i] + by;
-                holds(x, facts[i] + "<" + n, 10, by > 0);
-                holds(x, facts[i] + "=" + n, 10, by == 0);
-                holds(x, facts[i] + ">" + n, 10, by < 0);
+                holds(greatest, facts[i] + "<" + n, 10, by > 0);
+                holds(greatest, facts[i] + "=" + n, 10, by == 0);
+                holds(greatest, facts[i] + ">" + n, 10, by < 0);
             }
         }
         FriarLists least = withCaptives(1, 1);
@@ -970,6 +997,7 @@ public final class EdgesTest {
         }
 
         says("age: AGE in that WEEK");
+        x = withGreatest();
         holds(x, "age=90", 56, true);
         holds(x, "age=90", 57, false);
         holds(x, "age=91", 57, true);
@@ -1003,6 +1031,8 @@ public final class EdgesTest {
         holds(x, "not not turned", 10, true);
 
         says("COND: ALL { or ALL }, ALL: ONE { and ONE }, ONE: { not } ( ... )");
+        x = withGreatest();
+        x.turned(0, true);
         holds(x, "turned or sick and sick", 10, true);
         holds(x, "(turned or sick) and sick", 10, false);
         holds(x, "sick and sick or turned", 10, true);
@@ -1251,5 +1281,1346 @@ public final class EdgesTest {
         z.sails(3, 1, 400);
         due("by 1 and home, or by 1 and 2: the first", z.road(4, 1, 5), 0);
         due("as many weeks", z.road(4, 1, 1), 10);
+    }
+
+    // ---- 7
+
+    private static void moles() {
+        says("THE MOLE of a PORT with COIN C (0 to 99999)");
+        FriarLists x = withCaptives(2, 5);
+        for (int port : new int[] {-1, 0, 5}) due("mole of port " + port, x.mole(port, 9), -1);
+        for (int coin : new int[] {-1, 100000}) due("mole with " + coin, x.mole(1, coin), -1);
+        due("mole with 99999", x.mole(1, 99999), 3);
+        due("mole with 0", x.mole(1, 0), 0);
+        due("rows with 0", x.many(10), 0);
+        due("mole of port 4", x.mole(4, 99999), 0);
+        due("mole of nobody", new FriarLists().mole(1, 99999), 0);
+
+        says("those whose ASKS NOW are C at most together");
+        int[] coins = {10, 9, 5, 4};
+        int[] bits = {3, 1, 1, 0};
+        for (int i = 0; i < coins.length; i++) due("mole with " + coins[i], x.mole(1, coins[i]), bits[i]);
+        FriarLists dear = withCaptives(16, 999);
+        dear.premium(0, 500);
+        for (int i = 0; i < 12; i++) dear.news(-1, 9);
+        dear.weeks(3);
+        due("mole with 1499, not heard yet", dear.mole(1, 1499), 1);
+        dear.weeks(1);
+        due("mole with 17687", dear.mole(1, 17687), 0);
+        due("mole with 17688", dear.mole(1, 17688), 1);
+        due("mole with 88439", dear.mole(1, 88439), 15);
+        due("mole with 88440", dear.mole(1, 88440), 31);
+        due("mole with 99999", dear.mole(1, 99999), 31);
+
+        says("of CAPTIVES who are HELD by MASTERS there, aren't BARRED NOW, and have PROOFS enough");
+        FriarLists y = withCaptives(5, 5);
+        one(y, 1, 5);
+        y.master(1, 2);
+        y.lose(0, 5);
+        y.openBox(0, 7, 5);
+        y.buy(1, -1);
+        y.turned(2, true);
+        for (int c : new int[] {0, 1, 2, 3, 5}) y.proof(c, 0);
+        read(y, "bar if turned;proof 1;");
+        due("mole of port 1", y.mole(1, 99), 8);
+        due("mole of port 2", y.mole(2, 99), 32);
+        y.proof(4, 5);
+        due("mole with one more who has proofs", y.mole(1, 99), 24);
+        y.turned(2, false);
+        due("mole with one more who isn't barred", y.mole(1, 99), 28);
+        y.master(1, 1);
+        due("mole with one more master", y.mole(1, 99), 60);
+        y.master(0, 4);
+        due("mole without the others", y.mole(1, 99), 32);
+
+        says("12 at most, of least numbers");
+        FriarLists z = withCaptives(16, 5);
+        due("mole of sixteen", z.mole(1, 99999), 4095);
+        due("mole with exactly twelve", z.mole(1, 60), 4095);
+        due("rows of twelve", z.many(10), 12);
+        due("mole with 1 less than twelve", z.mole(1, 59), 2047);
+        z.lose(0, 6);
+        due("mole of fifteen", z.mole(1, 99999), 8190);
+        z.lose(12, 6);
+        due("mole of fourteen", z.mole(1, 99999), 12286);
+        FriarLists thirteen = withCaptives(12, 5);
+        one(thirteen, 0, 1);
+        read(thirteen, "rank 0 if paid=1;");
+        due("the thirteenth is not looked at", thirteen.mole(1, 5), 1);
+        thirteen.lose(11, 6);
+        due("the thirteenth becomes the twelfth", thirteen.mole(1, 5), 4096);
+        FriarLists apart = new FriarLists();
+        apart.master(1, 2);
+        for (int c = 0; c < 16; c++) one(apart, c % 4 == 0 ? 1 : 0, 5);
+        due("those elsewhere are not of the twelve", apart.mole(1, 99), 0xeeee);
+
+        says("with the most of RANK 0; of several the most of RANK 1, and so on");
+        FriarLists w = new FriarLists();
+        for (int c = 0; c < 10; c++) one(w, 0, 20 - c);
+        read(w, "rank 0 if paid=20;rank 1 if paid=19;rank 2 if paid=18;rank 3 if paid=17;rank 4 if paid=16;rank 5 if paid=15;rank 6 if paid=14;rank 7 if paid=13;rank 8 if paid=12;");
+        int sum = 0;
+        for (int c = 0; c < 10; c++) {
+            if (c < 9) due("mole with the first " + c + " and 11", w.mole(1, sum + 11), (1 << c) - 1 | 512);
+            sum += 20 - c;
+            due("mole with the first " + (c + 1), w.mole(1, sum), (2 << c) - 1);
+        }
+        FriarLists two = new FriarLists();
+        for (int paid : new int[] {10, 5, 5, 6}) one(two, 0, paid);
+        read(two, "rank 0 if paid=10;rank 1 if paid=5;rank 2;");
+        int[] coin = {4, 5, 9, 10, 14, 15, 16, 19, 20, 25, 26};
+        int[] most = {0, 2, 2, 1, 1, 3, 3, 3, 7, 7, 15};
+        for (int i = 0; i < coin.length; i++) due("mole with " + coin[i], two.mole(1, coin[i]), most[i]);
+
+        says("of several of the least sum of ASKS");
+        FriarLists least = new FriarLists();
+        for (int paid : new int[] {7, 5, 6}) one(least, 0, paid);
+        int[] with = {4, 5, 7, 10, 11, 12, 17, 18};
+        int[] those = {0, 2, 2, 2, 6, 6, 6, 7};
+        for (int i = 0; i < with.length; i++) due("mole with " + with[i], least.mole(1, with[i]), those[i]);
+
+        says("of several the least bits");
+        FriarLists same = new FriarLists();
+        for (int paid : new int[] {6, 5, 5, 5, 4}) one(same, 0, paid);
+        int[] c = {4, 5, 9, 13, 14, 15, 19, 24, 25};
+        int[] b = {16, 16, 18, 18, 22, 22, 30, 30, 31};
+        for (int i = 0; i < c.length; i++) due("mole with " + c[i], same.mole(1, c[i]), b[i]);
+
+        says("ROWS: for each of these, by numbers: (CAPTIVE, ASK)");
+        due("rows at first", new FriarLists().many(10), 0);
+        same.mole(1, 14);
+        int[] rows = {1, 5, 2, 5, 4, 4};
+        due("rows", same.many(10), 3);
+        for (int i = 0; i < 6; i++) due("row(" + i / 2 + ", " + i % 2 + ")", same.row(i / 2, i % 2), rows[i]);
+        due("refused", same.mole(0, 14), -1);
+        due("rows stay", same.many(10), 3);
+        same.mole(1, 0);
+        due("no rows any more", same.row(0, 0), -9);
+
+        says("-9: there is none such, another what");
+        same.mole(1, 25);
+        for (int i : new int[] {-1, 5, MIN, MAX}) {
+            due("row(" + i + ", 0)", same.row(i, 0), -9);
+            due("alterRow(" + i + ", 0, 1)", same.alterRow(i, 0, 1), -9);
+        }
+        for (int what : new int[] {-1, 2, MIN, MAX}) {
+            due("row(0, " + what + ")", same.row(0, what), -9);
+            due("alterRow(0, " + what + ", 1)", same.alterRow(0, what, 1), -9);
+        }
+        due("alterRow(4, 1, MIN)", same.alterRow(4, 1, MIN), 4);
+        due("alterRow(4, 1, MAX)", same.alterRow(4, 1, MAX), MIN);
+        due("alterRow(4, 0, -9)", same.alterRow(4, 0, -9), 4);
+        due("row(4, 1)", same.row(4, 1), MAX);
+        due("row(4, 0)", same.row(4, 0), -9);
+        due("row(3, 1)", same.row(3, 1), 5);
+    }
+
+    /** In port 1 captives 0 to 2 are held, for 5, 6 and 7, and stand in the rows; 3 is inland, 4 in port 2. */
+    private static FriarLists withRows() {
+        FriarLists x = new FriarLists();
+        for (int c = 0; c < 5; c++) one(x, c == 4 ? 1 : 0, 5 + c);
+        x.master(1, 2);
+        x.lose(3, 5);
+        x.mole(1, 18);
+        return x;
+    }
+
+    private static FriarLists withRow(int i, int captive, int ask) {
+        FriarLists x = withRows();
+        x.alterRow(i, 0, captive);
+        x.alterRow(i, 1, ask);
+        return x;
+    }
+
+    private static void readers() {
+        says("THE READER takes ROWS: the first that isn't right; else -1 (and 1 more)");
+        FriarLists x = withRows();
+        due("all are right", x.judge(1, 18), 0);
+        due("all are right", x.judge(1, 99999), 0);
+        due("a new object's", new FriarLists().judge(1, 0), 0);
+        x.mole(2, 8);
+        due("no rows", x.judge(4, 0), 0);
+        for (int port : new int[] {-1, 0, 5}) due("judge at " + port, x.judge(port, 0), -1);
+        for (int coin : new int[] {-1, 100000}) due("judge with " + coin, x.judge(1, coin), -1);
+
+        says("no such CAPTIVE");
+        for (int i = 0; i < 3; i++) {
+            for (int c : new int[] {-1, 5, 16, MIN, MAX}) due("captive " + c + " in row " + i, withRow(i, c, 5 + i).judge(1, 18), i + 1);
+        }
+
+        says("not so that they could be bought there as told");
+        due("in another port", withRows().judge(2, 18), 1);
+        due("inland", withRow(2, 3, 8).judge(1, 99), 3);
+        due("of a master elsewhere", withRow(2, 4, 9).judge(1, 99), 3);
+        for (int c = 0; c < 3; c++) {
+            for (int to = 5; to < 8; to++) {
+                FriarLists lost = withRows();
+                lost.lose(c, to);
+                due("lost " + c + " since", lost.judge(1, 18), c + 1);
+            }
+            FriarLists bought = withRows();
+            bought.openBox(0, 7, 9);
+            bought.buy(c, -1);
+            due("bought " + c + " since", bought.judge(1, 18), c + 1);
+            FriarLists barred = withRows();
+            read(barred, "bar if paid=" + (5 + c) + ";");
+            due("barred " + c + " since", barred.judge(1, 18), c + 1);
+            FriarLists proofs = withRows();
+            read(proofs, "proof 1;");
+            for (int other = 0; other < 3; other++) proofs.proof(other, other == c ? -1 : 0);
+            due("too few proofs of " + c, proofs.judge(1, 18), c + 1);
+            proofs.proof(c, 0);
+            due("proofs enough of " + c, proofs.judge(1, 18), 0);
+        }
+
+        says("their number isn't above that of the ROW ahead");
+        due("the same as ahead", withRow(1, 0, 5).judge(1, 18), 2);
+        due("the last one the same as ahead", withRow(2, 1, 6).judge(1, 18), 3);
+        due("below the one ahead", withRow(2, 0, 5).judge(1, 18), 3);
+        FriarLists turned = withRow(0, 2, 7);
+        due("the next is below", turned.judge(1, 18), 2);
+        FriarLists skips = withRows();
+        skips.mole(1, 11);
+        due("two rows", skips.judge(1, 18), 0);
+        skips.alterRow(1, 0, 2);
+        skips.alterRow(1, 1, 7);
+        due("above it by 2", skips.judge(1, 12), 0);
+
+        says("ASK is another");
+        for (int i = 0; i < 3; i++) {
+            for (int by : new int[] {-1, 1, -5 - i, MIN, MAX}) due("ask of row " + i + ", by " + by, withRow(i, i, 5 + i + by).judge(1, 99999), i + 1);
+        }
+        FriarLists heard = withRows();
+        heard.news(2, 9);
+        due("told, not heard", heard.judge(1, 99), 0);
+        heard.weeks(4);
+        due("heard", heard.judge(1, 99), 3);
+        heard.alterRow(2, 1, 13);
+        due("the ask as heard", heard.judge(1, 24), 0);
+        due("the ask as heard, above C", heard.judge(1, 23), 3);
+
+        says("the ASKS with those ahead are above C");
+        int[] coins = {0, 4, 5, 10, 11, 17, 18};
+        int[] judged = {1, 1, 2, 2, 3, 3, 0};
+        for (int i = 0; i < coins.length; i++) due("judge with " + coins[i], withRows().judge(1, coins[i]), judged[i]);
+    }
+
+    private static void buying() {
+        says("is BOUGHT for ASK NOW from THE CHEST (-1) or a LEGACY that MAY (both must have it)");
+        FriarLists x = withCaptives(2, 5);
+        due("buy from an empty chest", x.buy(0, -1), -4);
+        x.openBox(0, 7, 4);
+        due("buy, 1 is lacking", x.buy(0, -1), -4);
+        x.openBox(0, 7, 1);
+        due("buy with exactly so much", x.buy(0, -1), 5);
+        due("the chest", x.many(13), 0);
+        x.legacy(4);
+        x.legacy(5);
+        due("buy from a legacy, 1 is lacking", x.buy(1, 0), -4);
+        due("buy from a legacy with exactly so much", x.buy(1, 1), 5);
+        due("what is left", x.legacyOf(1, 1), 0);
+        due("what it was", x.legacyOf(1, 0), 5);
+        due("what is left of the other", x.legacyOf(0, 1), 4);
+        FriarLists rich = withCaptives(1, 5);
+        rich.openBox(0, 7, 99);
+        rich.legacy(4);
+        due("a rich chest, a poor legacy", rich.buy(0, 0), -4);
+        FriarLists poor = withCaptives(1, 5);
+        poor.legacy(99);
+        due("a poor chest, a rich legacy", poor.buy(0, -1), -4);
+        due("a poor chest, a rich legacy", poor.buy(0, 0), 5);
+
+        says("BAD: there is none such");
+        for (int from : new int[] {-2, 1, MIN, MAX}) due("buy from " + from, rich.buy(0, from), -1);
+        for (int c : new int[] {-1, 1, MIN, MAX}) due("buy captive " + c, rich.buy(c, -1), -1);
+        due("buy one who is bought, from none", poor.buy(0, 1), -1);
+
+        says("STATE: not HELD");
+        due("buy one who is bought", poor.buy(0, 0), -4);
+        FriarLists sea = withSailors(1, 1);
+        sea.legacy(99);
+        for (int week = 0; week < 4; week++) {
+            due("buy one of state " + sea.of(0, 6), sea.buy(0, 0), -4);
+            sea.weeks(1);
+        }
+        due("all states on the way home", sea.of(0, 6), 4);
+        for (int to = 5; to < 8; to++) {
+            FriarLists lost = withCaptives(1, 5);
+            lost.legacy(99);
+            lost.lose(0, to);
+            due("buy one of state " + to, lost.buy(0, 0), -4);
+        }
+
+        says("STATE: BARRED, too few PROOFS, it MAY not");
+        FriarLists y = withCaptives(2, 5);
+        y.openBox(0, 7, 99);
+        y.legacy(99);
+        y.legacy(99);
+        read(y, "bar if turned;proof 2;left 0 buys sick;");
+        due("without proofs", y.buy(0, -1), -4);
+        y.proof(0, 3);
+        y.proof(0, 3);
+        y.proof(0, -1);
+        due("with one proof", y.buy(0, -1), -4);
+        y.proof(0, 4);
+        y.turned(0, true);
+        due("barred", y.buy(0, -1), -4);
+        y.turned(0, false);
+        due("it may not", y.buy(0, 0), -4);
+        y.sick(0, true);
+        due("it may", y.buy(0, 0), 5);
+        y.proof(1, 0);
+        y.proof(1, 1);
+        due("a legacy of which nothing is told", y.buy(1, 1), 5);
+
+        says("10 for how much they were BOUGHT (0: they weren't), 11 the LEGACY that did (NONE: THE CHEST, or not)");
+        FriarLists z = withCaptives(3, 5);
+        z.openBox(0, 7, 99);
+        z.legacy(99);
+        z.news(1, 9);
+        z.weeks(4);
+        for (int c = 0; c < 3; c++) {
+            due("of(" + c + ", 10) at first", z.of(c, 10), 0);
+            due("of(" + c + ", 11) at first", z.of(c, 11), -3);
+        }
+        due("buy", z.buy(0, -1), 5);
+        due("buy", z.buy(1, 0), 9);
+        z.news(-1, 9);
+        z.weeks(4);
+        due("of(0, 10)", z.of(0, 10), 5);
+        due("of(1, 10)", z.of(1, 10), 9);
+        due("of(2, 10)", z.of(2, 10), 0);
+        due("of(0, 11)", z.of(0, 11), -3);
+        due("of(1, 11)", z.of(1, 11), 0);
+        due("of(2, 11)", z.of(2, 11), -3);
+    }
+
+    private static void amiss() {
+        says("AMISS is what was SPENT from LEGACIES on CAPTIVES whom they MAY not buy by THE RULES NOW");
+        FriarLists x = withCaptives(4, 5);
+        x.captive(1, 0, 20, 0, 7);
+        x.openBox(0, 7, 99);
+        x.legacy(99);
+        x.legacy(99);
+        due("amiss at first", x.legacyOf(0, 2), 0);
+        x.buy(0, 0);
+        x.buy(1, 0);
+        x.buy(2, -1);
+        x.buy(4, 1);
+        due("amiss without rules", x.legacyOf(0, 2), 0);
+        read(x, "left 0 buys turned;");
+        due("amiss of two", x.legacyOf(0, 2), 10);
+        due("amiss of the other", x.legacyOf(1, 2), 0);
+        x.turned(0, true);
+        due("amiss of one", x.legacyOf(0, 2), 5);
+        x.news(-1, 9);
+        x.weeks(4);
+        due("amiss stays as it was spent", x.legacyOf(0, 2), 5);
+        read(x, "left 0 buys age=20;left 1 buys age<21;");
+        due("amiss by later rules", x.legacyOf(0, 2), 0);
+        goTo(x, 51);
+        due("amiss in week 51", x.legacyOf(1, 2), 0);
+        x.weeks(1);
+        due("amiss in week 52", x.legacyOf(1, 2), 7);
+        due("amiss in week 52", x.legacyOf(0, 2), 10);
+        x.sick(0, true);
+        x.weeks(6);
+        due("amiss of one who is dead, too", x.legacyOf(0, 2), 10);
+        read(x, "");
+        due("amiss by an empty text", x.legacyOf(0, 2), 0);
+
+        says("PAID TWICE is a CAPTIVE who was BOUGHT (ever), and of whom another order tells that it paid for them, too");
+        FriarLists y = withCaptives(3, 5);
+        y.openBox(0, 7, 10);
+        for (int c : new int[] {-1, 3}) due("twice of " + c, y.twice(c), -1);
+        due("twice of one who is held", y.twice(0), 0);
+        due("of(0, 13)", y.of(0, 13), 0);
+        y.buy(0, -1);
+        due("of(0, 13), told ahead of buying", y.of(0, 13), 1);
+        y.buy(1, -1);
+        due("of(1, 13), not told", y.of(1, 13), 0);
+        y.sick(1, true);
+        y.weeks(6);
+        due("twice of one who was bought and is dead", y.twice(1), 1);
+        due("of(1, 13)", y.of(1, 13), 1);
+        y.lose(2, 6);
+        due("twice of one who ran", y.twice(2), 0);
+        due("of(2, 13)", y.of(2, 13), 0);
+        due("twice of one again", y.twice(0), 1);
+    }
+
+    private static void waits() {
+        says("TO WAIT, with an ASK a (1 to 9999), DROP, KEEP (0 to 999 each), PATIENCE (0 to 6) and LOSS (0 to 9999)");
+        FriarLists x = new FriarLists();
+        for (int what = 0; what < 2; what++) {
+            for (int ask : new int[] {0, 10000, -1, MIN, MAX}) due("ask " + ask, x.waits(ask, 1, 1, 1, 1, what), -1);
+            for (int drop : new int[] {-1, 1000, MIN, MAX}) due("drop " + drop, x.waits(1, drop, 1, 1, 1, what), -1);
+            for (int keep : new int[] {-1, 1000, MIN, MAX}) due("keep " + keep, x.waits(1, 1, keep, 1, 1, what), -1);
+            for (int patience : new int[] {-1, 7, MIN, MAX}) due("patience " + patience, x.waits(1, 1, 1, patience, 1, what), -1);
+            for (int loss : new int[] {-1, 10000, MIN, MAX}) due("loss " + loss, x.waits(1, 1, 1, 1, loss, what), -1);
+        }
+        for (int what : new int[] {-1, 2, MIN, MAX}) due("what " + what, x.waits(1, 1, 1, 1, 1, what), -1);
+        paysIn(x, new int[] {1, 0, 0, 0, 9999}, 1, 0);
+        paysIn(x, new int[] {9999, 999, 999, 6, 9999}, 9999, 0);
+        paysIn(x, new int[] {9999, 999, 998, 6, 9999}, 9993, 6);
+        paysIn(x, new int[] {9999, 999, 0, 6, 9999}, 4005, 6);
+        paysIn(x, new int[] {9999, 0, 999, 6, 0}, 6993, 7);
+
+        says("either pay a less DROP for each WEEK that went by (1 at least)");
+        paysIn(x, new int[] {10, 999, 0, 6, 9999}, 1, 1);
+        paysIn(x, new int[] {1, 999, 0, 6, 9999}, 1, 0);
+        paysIn(x, new int[] {10, 9, 0, 6, 9999}, 1, 1);
+        paysIn(x, new int[] {10, 8, 0, 6, 9999}, 1, 2);
+        paysIn(x, new int[] {10, 10, 0, 0, 9999}, 10, 0);
+        paysIn(x, new int[] {10, 3, 0, 2, 9999}, 4, 2);
+        paysIn(x, new int[] {10, 3, 0, 3, 9999}, 1, 3);
+        paysIn(x, new int[] {10, 3, 0, 4, 9999}, 1, 3);
+
+        says("or wait, which costs KEEP; in which WEEK one pays then (the first of several)");
+        paysIn(x, new int[] {10, 3, 2, 6, 9999}, 7, 3);
+        paysIn(x, new int[] {10, 3, 2, 2, 9999}, 8, 2);
+        paysIn(x, new int[] {10, 3, 3, 6, 9999}, 10, 0);
+        paysIn(x, new int[] {10, 3, 4, 6, 9999}, 10, 0);
+        paysIn(x, new int[] {10, 9, 8, 6, 9999}, 9, 1);
+        paysIn(x, new int[] {10, 0, 0, 6, 9999}, 10, 0);
+
+        says("who waits in WEEK PATIENCE has LOSS besides; PATIENCE and 1: not at all, if that is less than any");
+        paysIn(x, new int[] {10, 0, 2, 0, 7}, 9, 1);
+        paysIn(x, new int[] {10, 0, 2, 0, 8}, 10, 0);
+        paysIn(x, new int[] {10, 0, 2, 0, 9}, 10, 0);
+        paysIn(x, new int[] {1, 0, 0, 0, 0}, 0, 1);
+        paysIn(x, new int[] {1, 0, 1, 0, 0}, 1, 0);
+        paysIn(x, new int[] {10, 1, 0, 6, 3}, 3, 7);
+        paysIn(x, new int[] {10, 1, 0, 6, 4}, 4, 6);
+        paysIn(x, new int[] {9999, 0, 0, 6, 9998}, 9998, 7);
+        paysIn(x, new int[] {9999, 0, 1, 6, 9991}, 9998, 7);
+        paysIn(x, new int[] {9999, 0, 1, 6, 9992}, 9999, 0);
+    }
+
+    private static void paysIn(FriarLists x, int[] told, int cost, int week) {
+        String call = "waits of ask " + told[0] + ", drop " + told[1] + ", keep " + told[2] + ", patience " + told[3] + ", loss " + told[4];
+        due(call + ": cost", x.waits(told[0], told[1], told[2], told[3], told[4], 0), cost);
+        due(call + ": week", x.waits(told[0], told[1], told[2], told[3], told[4], 1), week);
+    }
+
+    // ---- 8
+
+    private static void ships() {
+        says("SHIPS, 4 at most, numbered as they come: a PASS for n CAPTIVES (1 to 16), in a PORT (1 to 4)");
+        FriarLists x = new FriarLists();
+        for (int port : new int[] {-1, 0, 5, MIN, MAX}) due("ship in " + port, x.ship(port, 1), -1);
+        for (int pass : new int[] {-1, 0, 17, MIN, MAX}) due("ship of pass " + pass, x.ship(1, pass), -1);
+        for (int s = 0; s < 4; s++) due("ship", x.ship(1 + s, s == 0 ? 16 : 1), s);
+        due("ship 5th", x.ship(1, 1), -2);
+        due("ship 5th of pass 17", x.ship(1, 17), -1);
+        due("many(8)", x.many(8), 4);
+
+        says("A CAPTIVE goes aboard: how many are. STATE: its PASS is for no more");
+        FriarLists y = withBought(16);
+        y.ship(1, 15);
+        y.ship(1, 1);
+        for (int c = 0; c < 15; c++) due("aboard", y.aboard(c, 0), c + 1);
+        due("aboard of a full ship", y.aboard(15, 0), -4);
+        due("aboard of another ship", y.aboard(15, 1), 1);
+        FriarLists all = withBought(16);
+        all.ship(1, 16);
+        for (int c = 15; c >= 0; c--) due("aboard", all.aboard(c, 0), 16 - c);
+
+        says("BAD: there is none such (either)");
+        for (int c : new int[] {-1, 16, MIN, MAX}) due("aboard of captive " + c, y.aboard(c, 0), -1);
+        for (int s : new int[] {-1, 2, MIN, MAX}) due("aboard of ship " + s, y.aboard(0, s), -1);
+
+        says("STATE: not BOUGHT");
+        FriarLists z = withBought(1);
+        for (int c = 1; c < 5; c++) one(z, 0, 5);
+        z.ship(1, 9);
+        for (int c = 1; c < 5; c++) {
+            if (c > 1) z.lose(c, 3 + c);
+            due("aboard of one of state " + z.of(c, 6), z.aboard(c, 0), -4);
+        }
+        FriarLists sea = withSailors(1, 1);
+        sea.ship(1, 9);
+        for (int week = 0; week < 4; week++) {
+            due("aboard of one of state " + sea.of(0, 6), sea.aboard(0, 1), -4);
+            sea.weeks(1);
+        }
+
+        says("STATE: on a SHIP");
+        z.ship(1, 9);
+        due("aboard", z.aboard(0, 0), 1);
+        due("aboard again", z.aboard(0, 0), -4);
+        due("aboard of another", z.aboard(0, 1), -4);
+        due("of(0, 12)", z.of(0, 12), 0);
+        due("of(1, 12)", z.of(1, 12), -3);
+
+        says("STATE: of a MASTER elsewhere (BOUGHT CAPTIVES go aboard where their MASTER is)");
+        FriarLists w = withBought(2);
+        w.ship(4, 9);
+        due("aboard in port 4", w.aboard(0, 0), -4);
+        w.master(1, 4);
+        due("aboard, another master went there", w.aboard(0, 0), -4);
+        w.master(0, 4);
+        due("aboard, the master went there", w.aboard(0, 0), 1);
+        w.master(0, 3);
+        due("aboard, the master left", w.aboard(1, 0), -4);
+
+        says("STATE: it has SAILED");
+        FriarLists gone = withBought(2);
+        gone.ship(1, 9);
+        gone.aboard(0, 0);
+        gone.sails(1, 0, 100);
+        gone.sail(0);
+        due("aboard of one at sea", gone.aboard(1, 0), -4);
+        gone.weeks(9);
+        due("aboard of one that came", gone.aboard(1, 0), -4);
+    }
+
+    private static void voyagesHome() {
+        says("It SAILS by THE ROAD for those aboard");
+        int[] aboard = {1, 10, 11, 16};
+        for (int n : aboard) {
+            FriarLists x = withBought(n);
+            x.sails(1, 0, 110);
+            x.sails(1, 2, 201);
+            x.sails(2, 0, 300);
+            x.ship(1, 16);
+            for (int c = 0; c < n; c++) x.aboard(c, 0);
+            due("weeks for those aboard, " + n, x.sail(0), n < 11 ? 1 : 5);
+        }
+        FriarLists lost = withBought(16);
+        lost.sails(1, 0, 199);
+        lost.ship(1, 16);
+        for (int c = 0; c < 16; c++) lost.aboard(c, 0);
+        due("road loses all", lost.road(1, 16, 0), 16);
+        lost.sail(0);
+        lost.weeks(1);
+        due("nobody is lost in fact", lost.many(23), 16);
+
+        says("STATE: it did already, nobody is aboard; NONE: there is no ROAD. BAD: there is none such");
+        FriarLists x = withBought(1);
+        x.ship(1, 1);
+        for (int s : new int[] {-1, 1, MIN, MAX}) due("sail " + s, x.sail(s), -1);
+        due("sail with nobody, without a road", x.sail(0), -4);
+        x.sails(1, 0, 100);
+        due("sail with nobody", x.sail(0), -4);
+        x.aboard(0, 0);
+        x.sails(1, 0, 99);
+        due("sail without a road", x.sail(0), -3);
+        due("still bought", x.of(0, 6), 1);
+        x.sails(1, 0, 100);
+        due("sail", x.sail(0), 1);
+        due("sail twice", x.sail(0), -4);
+        x.sails(1, 0, 0);
+        due("sail twice, without a road", x.sail(0), -4);
+        x.weeks(9);
+        due("sail behind coming", x.sail(0), -4);
+
+        says("it comes to the mole that many WEEKS later; all who are AT SEA on it are OFF then, for 2 WEEKS; then HOME");
+        for (int weeks : new int[] {1, 2, 9}) {
+            FriarLists y = withSailors(2, weeks);
+            for (int week = 1; week < weeks; week++) {
+                y.weeks(1);
+                due("at sea in week " + week, y.many(22), 2);
+            }
+            for (int off = 0; off < 2; off++) {
+                y.weeks(1);
+                due("off in week " + (weeks + off), y.many(23), 2);
+            }
+            y.weeks(1);
+            due("home in week " + (weeks + 2), y.many(24), 2);
+        }
+        FriarLists longest = withBought(1);
+        for (int port = 0; port < 4; port++) longest.sails(port, port + 1, 900);
+        longest.master(0, 4);
+        longest.ship(4, 1);
+        longest.aboard(0, 0);
+        due("the longest road", longest.sail(0), 36);
+        longest.weeks(35);
+        due("at sea in week 35", longest.of(0, 6), 2);
+        longest.weeks(1);
+        due("off in week 36", longest.of(0, 6), 3);
+
+        says("the WEEK on which it comes (it may be above 1999)");
+        for (int from : new int[] {1990, 1991, 1999}) {
+            FriarLists late = withBought(1);
+            late.sails(1, 0, 900);
+            late.ship(1, 1);
+            late.aboard(0, 0);
+            goTo(late, from);
+            due("comes", late.sail(0), from + 9);
+            goTo(late, 1999);
+            due("state in week 1999", late.of(0, 6), from == 1990 ? 3 : 2);
+        }
+    }
+
+    /** How many weeks, of the 20 that come, a captive is off. */
+    private static int weeksOff(FriarLists x, int captive) {
+        int off = 0;
+        for (int i = 0; i < 20; i++) {
+            x.weeks(1);
+            if (x.of(captive, 6) == 3) off++;
+        }
+        return off;
+    }
+
+    private static void quarantines() {
+        says("or for 6, if somebody AT SEA on it was SICK at some time since it SAILED (also one who is DEAD, or healed, now)");
+        FriarLists x = withSailors(2, 3);
+        due("nobody was sick", weeksOff(x, 0), 2);
+        x = withSailors(2, 3);
+        x.sick(1, true);
+        due("sick since it sailed, till off", weeksOff(x, 0), 6);
+        x = withSailors(2, 3);
+        x.sick(1, true);
+        x.sick(1, false);
+        due("healed in the week of sailing", weeksOff(x, 0), 6);
+        x = withSailors(2, 3);
+        x.weeks(2);
+        x.sick(1, true);
+        x.sick(1, false);
+        due("sick in the last week at sea, and healed", weeksOff(x, 0), 6);
+        due("who was sick is home", x.of(1, 6), 4);
+        x = withSailors(2, 9);
+        x.sick(1, true);
+        x.weeks(6);
+        due("who was sick is dead", x.of(1, 6), 7);
+        due("one died at sea", weeksOff(x, 0), 6);
+        x = withSailors(1, 3);
+        x.sick(0, true);
+        x.weeks(3);
+        x.sick(0, false);
+        due("alone, healed when off", 1 + weeksOff(x, 0), 6);
+        x = withSailors(2, 3);
+        x.weeks(3);
+        x.sick(1, true);
+        due("sick as off only", 1 + weeksOff(x, 0), 2);
+        due("who is sick is home", x.of(1, 6), 4);
+
+        says("since it SAILED: as it sails, too, and not ahead of it");
+        for (int healed = 0; healed < 3; healed++) {
+            FriarLists y = withBought(2);
+            y.sails(1, 0, 100);
+            y.ship(1, 2);
+            y.aboard(0, 0);
+            y.aboard(1, 0);
+            y.sick(1, true);
+            y.weeks(2);
+            if (healed == 0) y.sick(1, false);
+            y.sail(0);
+            if (healed == 1) y.sick(1, false);
+            due(new String[] {"healed as it sails", "healed behind sailing", "sick all the time"}[healed], weeksOff(y, 0), healed == 0 ? 2 : 6);
+        }
+
+        says("somebody AT SEA on it (not on another one, nor elsewhere)");
+        FriarLists z = withBought(4);
+        z.sails(1, 0, 200);
+        for (int s = 0; s < 2; s++) {
+            z.ship(1, 1);
+            z.aboard(s, s);
+        }
+        z.sail(0);
+        z.sail(1);
+        z.sick(1, true);
+        z.sick(2, true);
+        z.weeks(2);
+        z.sick(1, false);
+        z.weeks(1);
+        due("off still", z.many(23), 2);
+        z.weeks(1);
+        due("nobody was sick on ship 0", z.of(0, 6), 4);
+        due("somebody was on ship 1", z.of(1, 6), 3);
+        z.weeks(3);
+        due("off in week 7", z.of(1, 6), 3);
+        z.weeks(1);
+        due("home in week 8", z.of(1, 6), 4);
+    }
+
+    private static void asAWeekComes() {
+        says("As a WEEK comes: first who is SICK so long is DEAD; then SHIPS come");
+        FriarLists x = withSailors(3, 6);
+        x.sick(0, true);
+        x.weeks(1);
+        x.sick(1, true);
+        x.weeks(4);
+        due("at sea in week 5", x.many(22), 3);
+        x.weeks(1);
+        due("dead in the week of coming, not off", x.of(0, 6), 7);
+        due("off", x.of(1, 6), 3);
+        x.weeks(1);
+        due("dead a week later", x.of(1, 6), 7);
+        x.weeks(4);
+        due("off for 6", x.of(2, 6), 3);
+        x.weeks(1);
+        due("home", x.of(2, 6), 4);
+
+        says("first who is SICK so long is DEAD; then those who are OFF and whose WEEKS are over are HOME");
+        FriarLists y = withSailors(3, 2);
+        y.sick(2, true);
+        y.sick(2, false);
+        y.weeks(2);
+        y.sick(0, true);
+        y.weeks(1);
+        y.sick(1, true);
+        y.weeks(4);
+        due("off in week 7", y.many(23), 3);
+        y.weeks(1);
+        due("dead, not home", y.of(0, 6), 7);
+        due("home, sick for 5", y.of(1, 6), 4);
+        due("home", y.of(2, 6), 4);
+        y.weeks(1);
+        due("home, sick for 6", y.of(1, 6), 4);
+
+        says("n WEEKS go by: one by one");
+        for (int n : new int[] {1, 5, 6, 7, 8, 11, 12, 200}) {
+            FriarLists one = withSailors(3, 6), many = withSailors(3, 6);
+            one.sick(0, true);
+            many.sick(0, true);
+            many.weeks(n);
+            for (int i = 0; i < n; i++) one.weeks(1);
+            for (int c = 0; c < 3; c++) {
+                due("state of " + c + " after " + n, many.of(c, 6), one.of(c, 6));
+                due("state of " + c + " after " + n, many.of(c, 6), c == 0 ? n < 6 ? 2 : 7 : n < 6 ? 2 : n < 12 ? 3 : 4);
+            }
+        }
+    }
+
+    private static void voyages() {
+        says("VOYAGES, 8 at most: each costs so much (1 to 999) and brings so many (1 to 9) of a RANK (0 to 3)");
+        FriarLists x = new FriarLists();
+        for (int cost : new int[] {-1, 0, 1000, MIN, MAX}) due("voyage for " + cost, x.voyage(cost, 1, 0), -1);
+        for (int brings : new int[] {-1, 0, 10, MIN, MAX}) due("voyage of " + brings, x.voyage(1, brings, 0), -1);
+        for (int rank : new int[] {-1, 4, MIN, MAX}) due("voyage of rank " + rank, x.voyage(1, 1, rank), -1);
+        due("many(9)", x.many(9), 0);
+        for (int v = 0; v < 8; v++) due("voyage", x.voyage(999, 9, v == 0 ? 3 : 0), v + 1);
+        due("voyage 9th", x.voyage(1, 1, 0), -2);
+        due("voyage 9th for 0", x.voyage(0, 1, 0), -1);
+        due("many(9)", x.many(9), 8);
+
+        says("THE YEARS with COIN C: what = -1 their bits, -2 what they cost, else how many of RANK what (0 to 3)");
+        for (int what = -2; what < 4; what++) {
+            for (int coin : new int[] {-1, 100000, MIN, MAX}) due("years with " + coin, x.years(coin, what), -1);
+            due("years of none", new FriarLists().years(99999, what), 0);
+            due("years with 0", x.years(0, what), 0);
+        }
+        for (int what : new int[] {-3, 4, MIN, MAX}) due("years, what " + what, x.years(0, what), -1);
+        due("all", x.years(99999, -1), 255);
+        due("all cost", x.years(99999, -2), 7992);
+        due("of rank 0", x.years(99999, 0), 63);
+        due("of rank 1", x.years(99999, 1), 0);
+        due("of rank 3", x.years(99999, 3), 9);
+        FriarLists most = new FriarLists();
+        for (int v = 0; v < 8; v++) most.voyage(1, 9, v % 2 * 3);
+        FriarLists same = new FriarLists();
+        for (int v = 0; v < 8; v++) same.voyage(1, 9, 1);
+        due("72 of rank 1", same.years(8, 1), 72);
+        due("none of rank 0", same.years(8, 0), 0);
+        due("none of rank 2", same.years(8, 2), 0);
+        due("36 of rank 0", most.years(8, 0), 36);
+        due("36 of rank 3", most.years(8, 3), 36);
+
+        says("that cost C at most together");
+        due("exactly all", x.years(7992, -1), 255);
+        due("1 less than all", x.years(7991, -1), 254);
+        due("exactly one", x.years(999, -1), 2);
+        due("1 less than one", x.years(998, -1), 0);
+        due("1 less than two", x.years(1997, -1), 2);
+        due("exactly two", x.years(1998, -1), 6);
+
+        says("with the most of RANK 0, then 1, 2, 3");
+        FriarLists y = new FriarLists();
+        y.voyage(10, 1, 0);
+        y.voyage(5, 9, 1);
+        y.voyage(5, 9, 2);
+        y.voyage(4, 9, 3);
+        y.voyage(6, 1, 1);
+        int[] coins = {3, 4, 5, 6, 9, 10, 14, 15, 16, 19, 20, 21, 24, 25, 26, 29, 30};
+        int[] bits = {0, 8, 2, 2, 10, 1, 9, 3, 3, 11, 7, 19, 19, 27, 23, 23, 31};
+        for (int i = 0; i < coins.length; i++) due("years with " + coins[i], y.years(coins[i], -1), bits[i]);
+        FriarLists one = new FriarLists();
+        one.voyage(999, 1, 0);
+        for (int v = 1; v < 8; v++) one.voyage(1, 9, 1 + v % 3);
+        due("one of rank 0 ahead of 63 others", one.years(999, -1), 1);
+        due("63 others", one.years(998, -1), 254);
+
+        says("of several the cheapest");
+        FriarLists z = new FriarLists();
+        z.voyage(7, 2, 1);
+        z.voyage(6, 2, 1);
+        z.voyage(3, 1, 1);
+        z.voyage(2, 1, 1);
+        due("with 4", z.years(4, -1), 8);
+        due("with 5", z.years(5, -1), 12);
+        due("with 6", z.years(6, -1), 12);
+        due("with 7", z.years(7, -1), 12);
+        due("with 8", z.years(8, -1), 10);
+        due("it costs", z.years(8, -2), 8);
+        due("it brings", z.years(8, 1), 3);
+
+        says("of several the least bits");
+        FriarLists w = new FriarLists();
+        w.voyage(4, 2, 2);
+        w.voyage(4, 2, 2);
+        w.voyage(2, 1, 2);
+        w.voyage(2, 1, 2);
+        due("with 2", w.years(2, -1), 4);
+        due("with 4", w.years(4, -1), 1);
+        due("with 6", w.years(6, -1), 5);
+        due("with 8", w.years(8, -1), 3);
+        due("with 10", w.years(10, -1), 7);
+        FriarLists late = new FriarLists();
+        late.voyage(2, 1, 2);
+        late.voyage(2, 1, 2);
+        late.voyage(4, 2, 2);
+        due("two of least bits, not one", late.years(4, -1), 3);
+    }
+
+    // ---- 9
+
+    /** On shelf 0 is a paper of a kind (1 to 6), its number n (0 to 2) and its amount a told. */
+    private static FriarLists withPaper(int kind, int n, int a) {
+        FriarLists x = new FriarLists();
+        for (int i = 0; i <= n; i++) {
+            int amount = i == n ? a : 50;
+            if (kind == 1) x.alms(0, amount);
+            if (kind == 2) x.legacy(amount);
+            if (kind == 3) x.ship(1, Math.min(16, amount));
+            if (kind > 3) one(x, 0, amount);
+        }
+        x.openBox(0, 7, 9999);
+        if (kind > 4) x.buy(n, -1);
+        if (kind > 5) {
+            x.sails(1, 0, 900);
+            x.ship(1, 1);
+            x.aboard(n, 0);
+            x.sail(0);
+        }
+        x.shelf(0, kind < 4 ? kind - 1 : 3, n);
+        return x;
+    }
+
+    private static void acted(FriarLists x, int act, int told, int want, int... bodies) {
+        due("act " + act + " of " + told, x.act(0, act, told), want);
+        due("bodies of act " + act, x.many(12), bodies.length);
+        for (int i = 0; i < bodies.length; i++) due("body " + i + " of act " + act, x.trace(i), bodies[i]);
+        due("no body behind them", x.trace(bodies.length), -3);
+    }
+
+    private static void acts() {
+        says("alms: 20 counts: super.counts(x) + a (11, 12, 13 of paper)");
+        FriarLists alms = withPaper(1, 1, 7);
+        acted(alms, 0, 10, 18, 20, 10);
+        acted(alms, 1, 10, 36, 11, 20, 10);
+        acted(alms, 2, 10, 1, 12);
+        acted(alms, 3, 10, 29, 13, 11, 20, 10);
+
+        says("left: 30 binds: super.binds(x) ^ counts(1)");
+        FriarLists left = withPaper(2, 1, 7);
+        acted(left, 0, 10, 18, 20, 10);
+        acted(left, 1, 10, 45, 30, 11, 20, 10, 20, 10);
+        acted(left, 2, 10, 1, 12);
+        acted(left, 3, 10, 38, 13, 30, 11, 20, 10, 20, 10);
+
+        says("pass: 40 goes: super.goes(x + 3). 41 tells: super.tells(x) * 3");
+        FriarLists pass = withPaper(3, 1, 7);
+        acted(pass, 0, 10, 11, 10);
+        acted(pass, 1, 10, 22, 11, 10);
+        acted(pass, 2, 8, 1, 40, 12);
+        acted(pass, 2, 9, 2, 40, 12);
+        acted(pass, 3, 10, 45, 41, 13, 11, 10);
+
+        says("price: 50 binds: super.binds(x) - 7");
+        FriarLists price = withPaper(4, 1, 7);
+        acted(price, 0, 10, 11, 10);
+        acted(price, 1, 10, 15, 50, 11, 10);
+        acted(price, 2, 10, 1, 12);
+        acted(price, 3, 10, 8, 13, 50, 11, 10);
+
+        says("bought: 60 counts: super.counts(x) * 5. 61 goes: 0 - super.goes(x)");
+        FriarLists bought = withPaper(5, 1, 7);
+        acted(bought, 0, 10, 55, 60, 10);
+        acted(bought, 1, 10, 103, 50, 11, 60, 10);
+        acted(bought, 2, 10, -1, 61, 12);
+        acted(bought, 3, 10, 96, 13, 50, 11, 60, 10);
+
+        says("owed: 70 binds: super.binds(x + 1) ^ 9. 71 tells: super.tells(x) + goes(a)");
+        FriarLists owed = withPaper(6, 1, 7);
+        acted(owed, 0, 10, 55, 60, 10);
+        acted(owed, 1, 10, 120, 70, 50, 11, 60, 10);
+        acted(owed, 2, 10, -1, 61, 12);
+        acted(owed, 3, 10, 112, 71, 13, 70, 50, 11, 60, 10, 61, 12);
+        owed.weeks(9);
+        due("off", owed.of(1, 6), 3);
+        acted(owed, 3, 10, 112, 71, 13, 70, 50, 11, 60, 10, 61, 12);
+
+        says("of ALMS the amount, of a LEGACY what it has left, of a SHIP its PASS, of a CAPTIVE PAID");
+        FriarLists spent = withPaper(2, 0, 99);
+        one(spent, 0, 9);
+        spent.buy(0, 0);
+        acted(spent, 0, 0, 90, 20, 10);
+        one(spent, 0, 90);
+        spent.buy(1, 0);
+        acted(spent, 0, 0, 0, 20, 10);
+        acted(spent, 2, 5, -15, 12);
+        FriarLists dear = withCaptives(1, 5);
+        dear.premium(0, 500);
+        dear.openBox(0, 7, 9999);
+        dear.buy(0, -1);
+        dear.shelf(0, 3, 0);
+        acted(dear, 3, 0, -7 - 5, 13, 50, 11, 60, 10);
+        FriarLists last = withPaper(1, 23, 99);
+        acted(last, 0, 0, 122, 20, 10);
+    }
+
+    private static void wraps() {
+        says("a number x (ints that wrap): x + n, + a");
+        acted(withPaper(4, 1, 7), 0, MAX, MIN, 10);
+        acted(withPaper(4, 0, 7), 0, MAX, MAX, 10);
+        acted(withPaper(1, 1, 7), 0, MAX, MIN + 7, 20, 10);
+        acted(withPaper(1, 0, 1), 0, MAX, MIN, 20, 10);
+        acted(withPaper(1, 0, 1), 0, MIN, MIN + 1, 20, 10);
+
+        says("counts(x) * 2");
+        acted(withPaper(3, 0, 7), 1, MAX, -2, 11, 10);
+        acted(withPaper(3, 0, 7), 1, MIN, 0, 11, 10);
+        acted(withPaper(3, 0, 7), 1, 1 << 30, MIN, 11, 10);
+        acted(withPaper(3, 0, 7), 1, (1 << 30) - 1, MAX - 1, 11, 10);
+
+        says("x by (a - n), the rest away");
+        int[] told = {7, -7, 1, -1, 0, MAX, MIN};
+        int[] byTwo = {3, -3, 0, 0, 0, 1073741823, -1073741824};
+        int[] byLess = {-7, 7, -1, 1, 0, -MAX, MIN};
+        for (int i = 0; i < told.length; i++) {
+            acted(withPaper(1, 0, 2), 2, told[i], byTwo[i], 12);
+            acted(withPaper(1, 2, 1), 2, told[i], byLess[i], 12);
+            acted(withPaper(4, 2, 1), 2, told[i], byLess[i], 12);
+        }
+
+        says("binds(x) - a, super.binds(x) - 7");
+        acted(withPaper(3, 0, 7), 3, 1 << 30, (MAX - 6) * 3, 41, 13, 11, 10);
+        acted(withPaper(1, 0, 7), 3, (1 << 30) - 7, MAX - 6, 13, 11, 20, 10);
+        acted(withPaper(4, 0, 7), 1, 1 << 30, MAX - 6, 50, 11, 10);
+        acted(withPaper(4, 0, 7), 3, 1 << 30, MAX - 13, 13, 50, 11, 10);
+
+        says("super.binds(x) ^ counts(1)");
+        acted(withPaper(2, 0, 1), 1, -2, -2 ^ 2, 30, 11, 20, 10, 20, 10);
+        acted(withPaper(2, 0, 9999), 1, MAX, 2 * (MIN + 9998) ^ 10000, 30, 11, 20, 10, 20, 10);
+
+        says("super.goes(x + 3), super.tells(x) * 3");
+        acted(withPaper(3, 0, 1), 2, MAX, MIN + 2, 40, 12);
+        acted(withPaper(3, 0, 1), 2, MAX - 3, MAX, 40, 12);
+        acted(withPaper(3, 1, 7), 2, MAX, -357913941, 40, 12);
+        acted(withPaper(3, 0, 16), 3, 536870916, -1073741848, 41, 13, 11, 10);
+
+        says("super.counts(x) * 5, 0 - super.goes(x)");
+        acted(withPaper(5, 0, 7), 0, 429496730, -2147483646, 60, 10);
+        acted(withPaper(5, 0, 7), 0, MIN, MIN, 60, 10);
+        acted(withPaper(5, 0, 1), 2, MIN, MIN, 61, 12);
+        acted(withPaper(5, 2, 1), 2, MIN, MIN, 61, 12);
+        acted(withPaper(5, 2, 1), 2, MAX, MAX, 61, 12);
+
+        says("super.binds(x + 1) ^ 9, super.tells(x) + goes(a)");
+        acted(withPaper(6, 0, 7), 1, MAX, -7 ^ 9, 70, 50, 11, 60, 10);
+        acted(withPaper(6, 0, 7), 1, -1, -7 ^ 9, 70, 50, 11, 60, 10);
+        acted(withPaper(6, 0, 4), 3, 1073741825, MAX, 71, 13, 70, 50, 11, 60, 10, 61, 12);
+    }
+
+    private static void partings() {
+        says("12 goes: x by (a - n) (-15 if these are the same; that is all that act() answers then)");
+        for (int kind = 1; kind < 7; kind++) {
+            FriarLists x = withPaper(kind, 1, 1);
+            for (int told : new int[] {0, 1, -1, MIN, MAX}) {
+                due("goes of kind " + kind, x.act(0, 2, told), -15);
+                if (kind == 6) due("tells of kind 6", x.act(0, 3, told), -15);
+            }
+            due("counts of kind " + kind, x.act(0, 0, 0), new int[] {0, 2, 2, 1, 1, 5, 5}[kind]);
+            due("binds of kind " + kind, x.act(0, 1, 0), new int[] {0, 4, 4 ^ 3, 2, -5, 3, 13 ^ 9}[kind]);
+            if (kind < 6) due("tells of kind " + kind, x.act(0, 3, 0), new int[] {0, 3, 6, 3, -6, 2}[kind]);
+            due("goes of kind " + kind + " once more", x.act(0, 2, 0), -15);
+        }
+
+        says("an answer that is -15 without a parting");
+        acted(withPaper(4, 0, 1), 2, -15, -15, 12);
+        acted(withPaper(5, 0, 1), 2, 15, -15, 61, 12);
+    }
+
+    private static void traces() {
+        says("THE TRACE: numbers of the bodies that ran in the latest act(), as they began");
+        FriarLists x = withPaper(6, 1, 7);
+        due("no act yet", x.trace(0), -3);
+        due("no act yet", x.many(12), 0);
+        x.act(0, 3, 10);
+        for (int i : new int[] {-1, 9, 29, 30, 31, MIN, MAX}) due("trace(" + i + ")", x.trace(i), -3);
+        due("trace(8)", x.trace(8), 12);
+        x.act(0, 0, 10);
+        due("of the latest alone", x.many(12), 2);
+        due("trace(2)", x.trace(2), -3);
+        acted(withPaper(6, 1, 1), 3, 0, -15, 71, 13, 70, 50, 11, 60, 10, 61, 12);
+        acted(withPaper(3, 1, 1), 2, 0, -15, 40, 12);
+
+        says("0, and no TRACE then: no such SHELF, act, nothing, a row");
+        x.sheet(0, 2, 5);
+        x.shelf(1, 4, 0);
+        int[][] calls = {{-1, 0}, {4, 0}, {MIN, 0}, {MAX, 0}, {0, -1}, {0, 4}, {0, MIN}, {0, MAX}, {1, 0}, {1, 3}, {2, 0}, {3, 2}};
+        for (int[] call : calls) {
+            x.act(0, 3, 10);
+            due("act(" + call[0] + ", " + call[1] + ", 10)", x.act(call[0], call[1], 10), 0);
+            due("no trace then", x.many(12), 0);
+            due("no trace then", x.trace(0), -3);
+        }
+    }
+
+    private static void sheets() {
+        says("SHEETS 0 to 3 are rows of bytes, shorts, ints, longs or booleans, or missing (at first)");
+        FriarLists x = new FriarLists();
+        for (int s = 0; s < 4; s++) {
+            due("put to a missing sheet", x.put(s, 0, 1), -11);
+            for (int sort = 0; sort < 5; sort++) due("item of a missing sheet", x.item(s, sort, 0), -11);
+            due("comes of a missing sheet", x.comes(s, 0), -11);
+        }
+        for (int s : new int[] {-1, 4, MIN, MAX}) {
+            due("sheet " + s, x.sheet(s, 0, 1), -1);
+            due("put to sheet " + s, x.put(s, 0, 1), -1);
+            due("item of sheet " + s, x.item(s, 0, 0), -1);
+            due("comes of sheet " + s, x.comes(s, 0), -1);
+        }
+
+        says("40 at most. BAD: no such SHEET, sort, n above 40; -14");
+        for (int sort = 0; sort < 5; sort++) {
+            due("sheet of 0", x.sheet(0, sort, 0), 1);
+            due("item of a sheet of 0", x.item(0, sort, 0), -12);
+            due("put to a sheet of 0", x.put(0, 0, 1), -12);
+            due("sheet of 40", x.sheet(3, sort, 40), 1);
+            due("put to the last", x.put(3, 39, 1), 1);
+            due("the last", x.item(3, sort, 39), 1);
+            due("put behind the last", x.put(3, 40, 1), -12);
+            due("behind the last", x.item(3, sort, 40), -12);
+            for (int n : new int[] {41, MAX}) due("sheet of " + n, x.sheet(3, sort, n), -1);
+            for (int n : new int[] {-1, -41, MIN}) due("sheet of " + n, x.sheet(3, sort, n), -14);
+            due("the last, behind what was refused", x.item(3, sort, 39), 1);
+        }
+        for (int sort : new int[] {-2, 5, MIN, MAX}) {
+            due("sheet of sort " + sort, x.sheet(0, sort, 1), -1);
+            due("sheet of sort " + sort + " below 0", x.sheet(0, sort, -1), -1);
+        }
+        due("sheet 4 below 0", x.sheet(4, 0, -1), -1);
+
+        says("A SHEET becomes a row of n of a sort, all 0, or missing (sort -1)");
+        for (int i = 0; i < 40; i++) x.put(3, i, 1);
+        x.sheet(3, 4, 40);
+        for (int i = 0; i < 40; i++) due("all 0", x.item(3, 4, i), 0);
+        x.put(3, 0, 1);
+        x.sheet(3, 2, 1);
+        due("0", x.item(3, 2, 0), 0);
+        due("another sort", x.item(3, 4, 0), -13);
+        due("no second", x.item(3, 2, 1), -12);
+        due("missing", x.sheet(3, -1, 1), 1);
+        due("item of a missing sheet", x.item(3, 2, 0), -11);
+        due("missing again", x.sheet(3, -1, 0), 1);
+        due("missing of 41", x.sheet(3, -1, 41), -1);
+    }
+
+    private static void items() {
+        says("Item i becomes v, narrowed to its sort (booleans: whether it isn't 0)");
+        int[] told = {0, 1, -1, 2, 127, 128, 255, 256, -128, -129, 32767, 32768, 65535, 65536, -32768, -32769, MAX, MIN};
+        int[] bytes = {0, 1, -1, 2, 127, -128, -1, 0, -128, 127, -1, 0, -1, 0, 0, -1, -1, 0};
+        int[] shorts = {0, 1, -1, 2, 127, 128, 255, 256, -128, -129, 32767, -32768, -1, 0, -32768, 32767, -1, 0};
+        FriarLists x = new FriarLists();
+        for (int sort = 0; sort < 3; sort++) x.sheet(sort, sort, 1);
+        for (int i = 0; i < told.length; i++) {
+            for (int s = 0; s < 3; s++) due("put " + told[i], x.put(s, 0, told[i]), 1);
+            due("byte of " + told[i], x.item(0, 0, 0), bytes[i]);
+            due("short of " + told[i], x.item(1, 1, 0), shorts[i]);
+            due("int of " + told[i], x.item(2, 2, 0), told[i]);
+        }
+        x.sheet(0, 3, 1);
+        x.sheet(1, 4, 1);
+        for (int v : told) {
+            for (int s = 0; s < 2; s++) x.put(s, 0, v);
+            due("long of " + v, x.item(0, 3, 0), v);
+            due("boolean of " + v, x.item(1, 4, 0), v == 0 ? 0 : 1);
+        }
+
+        says("Item i, taken for a sort: BAD: no such SHEET, sort; -13; -11; -12. (An item may be as low as these, too.)");
+        FriarLists y = new FriarLists();
+        for (int own = 0; own < 5; own++) {
+            y.sheet(0, own, 3);
+            for (int sort = 0; sort < 5; sort++) {
+                due("sort " + own + " taken for " + sort, y.item(0, sort, 2), own == sort ? 0 : -13);
+                due("outside of sort " + own + " taken for " + sort, y.item(0, sort, 3), own == sort ? -12 : -13);
+            }
+            for (int sort : new int[] {-1, 5, MIN, MAX}) due("sort " + own + " taken for " + sort, y.item(0, sort, 0), -1);
+            for (int i : new int[] {-1, 3, MIN, MAX}) {
+                due("item " + i, y.item(0, own, i), -12);
+                due("put to item " + i, y.put(0, i, 1), -12);
+            }
+        }
+        y.sheet(0, 2, 1);
+        for (int v : new int[] {-1, -11, -12, -13, -14}) {
+            due("put", y.put(0, 0, v), 1);
+            due("an item as low as a refusal", y.item(0, 2, 0), v);
+        }
+    }
+
+    private static void fill(FriarLists x, int sheet, int from, int... items) {
+        for (int i = 0; i < items.length; i++) x.put(sheet, from + i, items[i]);
+    }
+
+    private static void comers() {
+        says("items i to i + 4 are what captive() is told, in its order: what that answers");
+        FriarLists x = new FriarLists();
+        x.sheet(0, 2, 40);
+        fill(x, 0, 0, 3, 534, 90, 0, 999);
+        fill(x, 0, 35, 4, 123, 1, 0, 1);
+        due("comes from the first", x.comes(0, 0), 0);
+        due("comes from the last that has five", x.comes(0, 35), 1);
+        for (int i : new int[] {-1, 36, 39, 40, MIN, MAX}) due("comes from " + i, x.comes(0, i), -12);
+        int[] of = {3, 5, 3, 4, 0, 999};
+        for (int what = 0; what < 6; what++) due("of(0, " + what + ")", x.of(0, what), of[what]);
+        due("of(0, 9)", x.of(0, 9), 90);
+        due("no name", x.comes(0, 1), -1);
+        due("all 0", x.comes(0, 20), -1);
+        int[][] wrongOnes = {{27, 0, 1, 0, 1}, {1, 600, 1, 0, 1}, {1, 0, 91, 0, 1}, {1, 0, 1, 1, 1}, {1, 0, 1, 0, 1000}};
+        for (int[] items : wrongOnes) {
+            fill(x, 0, 10, items);
+            due("what captive() refuses", x.comes(0, 10), -1);
+        }
+        for (int c = 2; c < 16; c++) due("comes", x.comes(0, 0), c);
+        due("comes as a 17th", x.comes(0, 0), -2);
+        due("comes as a 17th without a name", x.comes(0, 20), -1);
+        due("comes from outside as a 17th", x.comes(0, 36), -12);
+
+        says("from a SHEET taken for ints. BAD: no such SHEET; -13; -11; -12");
+        FriarLists y = new FriarLists();
+        for (int sort = 0; sort < 5; sort++) {
+            y.sheet(0, sort, 5);
+            fill(y, 0, 0, 1, 0, 1, 0, 1);
+            due("comes from sort " + sort, y.comes(0, 0), sort == 2 ? 0 : -13);
+            due("comes from outside of sort " + sort, y.comes(0, 1), sort == 2 ? -12 : -13);
+            y.sheet(0, sort, 4);
+            due("comes from four", y.comes(0, 0), sort == 2 ? -12 : -13);
+            y.sheet(0, sort, 0);
+            due("comes from none", y.comes(0, 0), sort == 2 ? -12 : -13);
+        }
+        due("captives", y.many(1), 1);
+    }
+
+    private static void shelves() {
+        says("SHELVES 0 to 3 hold ALMS, a LEGACY, a SHIP, a CAPTIVE, a SHEET's row, or nothing (at first)");
+        FriarLists x = new FriarLists();
+        int[] kinds = {0, 1, 2, 3, 4, 5, 6, 10, 11, 12, 13, 14};
+        for (int s = 0; s < 4; s++) {
+            for (int as : kinds) due("shelf " + s + " at first", x.taken(s, as), -11);
+        }
+
+        says("BAD: no such SHELF, what, thing");
+        for (int s : new int[] {-1, 4, MIN, MAX}) {
+            due("shelf " + s, x.shelf(s, 5, 0), -1);
+            due("taken of shelf " + s, x.taken(s, 0), -1);
+        }
+        for (int what : new int[] {-1, 6, MIN, MAX}) due("what " + what, x.shelf(0, what, 0), -1);
+        for (int what = 0; what < 4; what++) {
+            for (int n : new int[] {-1, 0, 24, MIN, MAX}) due("thing " + n + " of " + what, x.shelf(0, what, n), -1);
+        }
+        for (int n : new int[] {-1, 4, MIN, MAX}) due("sheet " + n, x.shelf(0, 4, n), -1);
+        for (int n : new int[] {-1, 0, MAX}) due("nothing " + n, x.shelf(0, 5, n), 1);
+        for (int i = 0; i < 24; i++) x.alms(0, 99);
+        for (int i = 0; i < 6; i++) x.legacy(9);
+        for (int i = 0; i < 4; i++) x.ship(1, 1);
+        for (int i = 0; i < 16; i++) one(x, 0, 5);
+        int[] most = {24, 6, 4, 16};
+        for (int what = 0; what < 4; what++) {
+            due("the last thing of " + what, x.shelf(what, what, most[what] - 1), 1);
+            due("behind the last thing of " + what, x.shelf(what, what, most[what]), -1);
+            due("ahead of the first thing of " + what, x.shelf(what, what, -1), -1);
+            due("the last thing stays", x.taken(what, 0), most[what] - 1);
+        }
+
+        says("taken for a paper of kind as (0 to 6, or one under it): its number; -13");
+        int[][] takes = {{1, 1, 0, 0, 0, 0, 0}, {1, 1, 1, 0, 0, 0, 0}, {1, 0, 0, 1, 0, 0, 0}, {1, 0, 0, 0, 1, 0, 0}};
+        for (int what = 0; what < 4; what++) {
+            for (int as = 0; as < 7; as++) due("shelf " + what + " taken as " + as, x.taken(what, as), takes[what][as] == 1 ? most[what] - 1 : -13);
+            for (int as = 10; as < 15; as++) due("shelf " + what + " taken as " + as, x.taken(what, as), -13);
+            for (int as : new int[] {-1, 7, 8, 9, 15, MIN, MAX}) due("shelf " + what + " taken as " + as, x.taken(what, as), -1);
+        }
+
+        says("A CAPTIVE who is HELD is a price, who is BOUGHT a bought one, who is AT SEA or OFF an owed one, else nothing");
+        int[][] ways = {{1, 0, 0, 0, 1, 0, 0}, {1, 0, 0, 0, 1, 1, 0}, {1, 0, 0, 0, 1, 1, 1}};
+        FriarLists y = withCaptives(2, 5);
+        y.shelf(0, 3, 1);
+        for (int as = 0; as < 7; as++) due("held, taken as " + as, y.taken(0, as), ways[0][as] == 1 ? 1 : -13);
+        y.openBox(0, 7, 5);
+        y.buy(1, -1);
+        for (int as = 0; as < 7; as++) due("bought, taken as " + as, y.taken(0, as), ways[1][as] == 1 ? 1 : -13);
+        y.sails(0, 1, 100);
+        y.ship(1, 1);
+        y.aboard(1, 0);
+        for (int as = 0; as < 7; as++) due("aboard, taken as " + as, y.taken(0, as), ways[1][as] == 1 ? 1 : -13);
+        y.sail(0);
+        for (int as = 0; as < 7; as++) due("at sea, taken as " + as, y.taken(0, as), ways[2][as] == 1 ? 1 : -13);
+        y.weeks(1);
+        for (int as = 0; as < 7; as++) due("off, taken as " + as, y.taken(0, as), ways[2][as] == 1 ? 1 : -13);
+        y.weeks(2);
+        for (int as : kinds) due("home, taken as " + as, y.taken(0, as), -11);
+        due("home, act", y.act(0, 0, 5), 0);
+        due("one who is home on a shelf", y.shelf(1, 3, 1), 1);
+        due("one who is home, taken", y.taken(1, 0), -11);
+        for (int to = 5; to < 8; to++) {
+            FriarLists lost = withCaptives(1, 5);
+            lost.shelf(0, 3, 0);
+            lost.lose(0, to);
+            for (int as : kinds) due("lost to " + to + ", taken as " + as, lost.taken(0, as), -11);
+            due("lost, act", lost.act(0, 0, 5), 0);
+            due("lost, taken as 7", lost.taken(0, 7), -1);
+        }
+
+        says("for a row of sort as - 10 (as 10 to 14): how many items; the row of SHEET n (4; nothing, if missing)");
+        FriarLists z = new FriarLists();
+        for (int sort = 0; sort < 5; sort++) {
+            for (int n : new int[] {0, 1, 40}) {
+                z.sheet(3, sort, n);
+                due("shelf of a row", z.shelf(3, 4, 3), 1);
+                for (int as : kinds) due("row of " + n + " of sort " + sort + " taken as " + as, z.taken(3, as), as == sort + 10 ? n : -13);
+            }
+        }
+        z.sheet(3, -1, 0);
+        due("shelf of a missing sheet", z.shelf(3, 4, 3), 1);
+        for (int as : kinds) due("missing taken as " + as, z.taken(3, as), -11);
+        z.sheet(3, 0, 2);
+        due("nothing still", z.taken(3, 10), -11);
+        z.shelf(3, 4, 3);
+        due("two items", z.taken(3, 10), 2);
+        z.shelf(3, 5, 9);
+        due("nothing", z.taken(3, 10), -11);
+    }
+
+    private static void manys() {
+        says("How many: what = 0 to 14, 20 + s; BAD: another what");
+        FriarLists x = new FriarLists();
+        for (int what = 0; what < 15; what++) due("many(" + what + ") at first", x.many(what), 0);
+        for (int s = 0; s < 8; s++) due("many(" + (20 + s) + ") at first", x.many(20 + s), 0);
+        for (int what : new int[] {-1, 15, 16, 17, 18, 19, 28, 29, MIN, MAX}) due("many(" + what + ")", x.many(what), -1);
+        for (int c = 0; c < 16; c++) one(x, 0, 5);
+        due("all are held", x.many(20), 16);
+        for (int c = 0; c < 16; c++) x.lose(c, 5 + c % 3);
+        int[] states = {0, 0, 0, 0, 0, 6, 5, 5};
+        for (int s = 0; s < 8; s++) due("many(" + (20 + s) + ")", x.many(20 + s), states[s]);
+        due("many(1)", x.many(1), 16);
+    }
+
+    /** Each list holds as many as it may. */
+    private static FriarLists full() {
+        FriarLists x = withCaptives(16, 5);
+        for (int i = 0; i < 12; i++) x.news(0, 1);
+        for (int i = 0; i < 24; i++) x.alms(0, 1);
+        for (int i = 0; i < 12; i++) x.openBox(0, 0, 1);
+        for (int i = 0; i < 6; i++) x.legacy(1);
+        for (int i = 0; i < 8; i++) x.read();
+        for (int i = 0; i < 20; i++) x.proof(0, 0);
+        for (int i = 0; i < 4; i++) x.ship(1, 1);
+        for (int i = 0; i < 8; i++) x.voyage(1, 1, 0);
+        return x;
+    }
+
+    private static void kept() {
+        says("again: NONE: nothing is kept");
+        FriarLists x = new FriarLists();
+        due("again", x.again(), -3);
+        x.weeks(1);
+        due("again", x.again(), -3);
+        due("many(0)", x.many(0), 1);
+
+        says("It becomes what was kept latest (which stays)");
+        due("keep", x.keep(), 1);
+        x.weeks(1);
+        due("keep", x.keep(), 1);
+        for (int i = 0; i < 3; i++) {
+            x.weeks(7);
+            one(x, 0, 5);
+            due("again", x.again(), 1);
+            due("many(0)", x.many(0), 2);
+            due("many(1)", x.many(1), 0);
+        }
+        due("again at once", x.again(), 1);
+
+        says("a new object is kept: all is empty again");
+        FriarLists empty = new FriarLists();
+        empty.keep();
+        for (int c = 0; c < 16; c++) one(empty, 0, 5);
+        empty.openBox(0, 0, 9999);
+        empty.weeks(200);
+        empty.again();
+        for (int what = 0; what < 15; what++) due("many(" + what + ")", empty.many(what), 0);
+        due("the first again", one(empty, 0, 5), 0);
+
+        says("full lists are kept, and become so again");
+        FriarLists full = full();
+        int[] most = {0, 16, 12, 24, 12, 6, 8, 20, 4, 8, 0, 0, 0, 12, 12};
+        for (int what = 0; what < 15; what++) due("many(" + what + ") of full lists", full.many(what), most[what]);
+        full.keep();
+        full.weeks(1);
+        full.again();
+        for (int what = 0; what < 15; what++) due("many(" + what + ") again", full.many(what), most[what]);
+        due("captive", one(full, 0, 5), -2);
+        due("news", full.news(0, 1), -2);
+        due("alms", full.alms(0, 1), -2);
+        due("openBox", full.openBox(0, 0, 1), -2);
+        due("legacy", full.legacy(1), -2);
+        due("read", full.read(), -2);
+        due("proof", full.proof(0, 0), -2);
+        due("ship", full.ship(1, 1), -2);
+        due("voyage", full.voyage(1, 1, 0), -2);
+
+        says("All but THE TAPE, ROWS, SHEETS, SHELVES, THE TRACE is kept");
+        FriarLists y = withCaptives(2, 5);
+        y.sheet(0, 2, 3);
+        y.put(0, 2, 8);
+        y.shelf(0, 3, 1);
+        y.shelf(1, 4, 0);
+        feed(y, "rank");
+        y.mole(1, 5);
+        y.act(0, 1, 5);
+        y.keep();
+        feed(y, " 4;");
+        y.mole(1, 10);
+        y.alterRow(1, 1, 77);
+        y.put(0, 2, 9);
+        y.sheet(1, 0, 7);
+        y.shelf(2, 4, 1);
+        y.act(0, 0, 5);
+        y.again();
+        due("the tape stays", y.many(11), 7);
+        due("rows stay", y.many(10), 2);
+        due("a row stays as altered", y.row(1, 1), 77);
+        due("a sheet's item stays", y.item(0, 2, 2), 9);
+        due("a sheet stays", y.item(1, 0, 6), 0);
+        due("a shelf stays", y.taken(2, 10), 7);
+        due("the trace stays", y.many(12), 1);
+        due("the trace stays", y.trace(0), 10);
+        due("the tape is read", y.read(), 0);
+        due("rank", y.rank(0, 0), 4);
+
+        says("one that is not there any more is nothing");
+        FriarLists z = new FriarLists();
+        z.keep();
+        z.alms(0, 9);
+        z.legacy(9);
+        z.ship(1, 9);
+        one(z, 0, 9);
+        for (int s = 0; s < 4; s++) z.shelf(s, s, 0);
+        for (int s = 0; s < 4; s++) due("there", z.taken(s, 0), 0);
+        z.again();
+        for (int s = 0; s < 4; s++) {
+            for (int as : new int[] {0, 1, 2, 3, 4, 5, 6, 10, 14}) due("nothing on shelf " + s, z.taken(s, as), -11);
+            due("act of nothing", z.act(s, 0, 5), 0);
+            due("no trace", z.many(12), 0);
+        }
+
+        says("THE READER: no such CAPTIVE any more");
+        FriarLists w = withCaptives(1, 5);
+        w.keep();
+        one(w, 0, 5);
+        w.mole(1, 10);
+        due("both are there", w.judge(1, 10), 0);
+        w.again();
+        due("the second isn't", w.judge(1, 10), 2);
     }
 }

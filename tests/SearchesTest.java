@@ -63,15 +63,19 @@ public final class SearchesTest {
 
     private static int bestOf(FriarLists x, List<Integer> those, int coin) {
         int best = 0;
-        int[] bestWorth = new int[11];
+        int[] bestWorth = new int[11], ranks = new int[those.size()], asks = new int[those.size()];
+        for (int i = 0; i < those.size(); i++) {
+            ranks[i] = x.rank(those.get(i), 5);
+            asks[i] = x.ask(those.get(i), 5);
+        }
         for (int set = 1; set < 1 << those.size(); set++) {
             int[] worth = new int[11];
             int bits = 0;
             for (int i = 0; i < those.size(); i++) {
                 if ((set >> i & 1) == 0) continue;
                 bits |= 1 << those.get(i);
-                worth[x.rank(those.get(i), 5)]++;
-                worth[10] -= x.ask(those.get(i), 5);
+                worth[ranks[i]]++;
+                worth[10] -= asks[i];
             }
             int order = -worth[10] > coin ? -1 : java.util.Arrays.compare(worth, bestWorth);
             if (order < 0 || (order == 0 && Integer.compareUnsigned(bits, best) > 0)) continue;
