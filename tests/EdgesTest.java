@@ -110,7 +110,7 @@ public final class EdgesTest {
     }
 
     private static void goTo(FriarLists x, int week) {
-        while (x.many(0) < week) x.weeks(Math.min(200, week - x.many(0)));
+        for (int i = 0; i < 10; i++) x.weeks(Math.min(200, week - x.many(0)));
     }
 
     private static void feed(FriarLists x, String text) {
@@ -2035,6 +2035,11 @@ public final class EdgesTest {
         int[] coins = {3, 4, 5, 6, 9, 10, 14, 15, 16, 19, 20, 21, 24, 25, 26, 29, 30};
         int[] bits = {0, 8, 2, 2, 10, 1, 9, 3, 3, 11, 7, 19, 19, 27, 23, 23, 31};
         for (int i = 0; i < coins.length; i++) due("years with " + coins[i], y.years(coins[i], -1), bits[i]);
+        FriarLists little = new FriarLists();
+        little.voyage(1, 1, 3);
+        due("the least voyage", little.years(1, -1), 1);
+        due("1 of rank 3", little.years(1, 3), 1);
+        due("the least voyage, 1 less", little.years(0, 3), 0);
         FriarLists one = new FriarLists();
         one.voyage(999, 1, 0);
         for (int v = 1; v < 8; v++) one.voyage(1, 9, 1 + v % 3);
