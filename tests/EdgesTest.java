@@ -834,6 +834,11 @@ public final class EdgesTest {
         isFault("\u0000", 0);
         isFault("\u007f", 0);
         isFault("\u00ff", 0);
+        isFault("\u00f2ank 1;", 0);
+        isFault("\u00a0rank 1;", 0);
+        isFault("rank\u00a01;", 4);
+        isFault("rank \u00b1;", 5);
+        isFault("rank 1\u00bb", 6);
         isFault("`rank 1;", 0);
         isFault("{rank 1;", 0);
         isFault("rank/1;", 4);
@@ -1444,7 +1449,10 @@ public final class EdgesTest {
 
         says("no such CAPTIVE");
         for (int i = 0; i < 3; i++) {
-            for (int c : new int[] {-1, 5, 16, MIN, MAX}) due("captive " + c + " in row " + i, withRow(i, c, 5 + i).judge(1, 18), i + 1);
+            for (int c : new int[] {-1, 5, 15, 16, MIN, MAX}) {
+                due("captive " + c + " in row " + i, withRow(i, c, 5 + i).judge(1, 18), i + 1);
+                due("captive " + c + " for nothing in row " + i, withRow(i, c, 0).judge(1, 18), i + 1);
+            }
         }
 
         says("not so that they could be bought there as told");
